@@ -553,8 +553,8 @@ public final class TraitLines {
                 fraction++;
             }
         }
-        boolean half = rest * 2 == divisor;
-        if (rest * 2 > divisor || half && (fraction & 1) == 1) {
+        // no quotient by 26 at most lies just between two doubles, so there is no half to round to even
+        if (rest * 2 > divisor) {
             fraction++;
         }
         return ((1023L + exponent) << 52) + fraction;

@@ -9,6 +9,7 @@ public final class LinesTest {
         orders();
         noOrders();
         manyOrders();
+        fullWorld();
         HelperCheck.finish("LinesTest");
     }
 
@@ -150,5 +151,39 @@ public final class LinesTest {
         due("place(11, 0)", x.place(11, 0), HelperCheck.bits(2, 3, 4, 5, 6, 7, 8, 9, 10, 11));
         // a tree: 12! by the sizes of all that stands behind each one
         due("orders(11)", x.orders(11), 2800);
+        due("leave", x.leave(11, 7), 3);
+        due("place, asked first behind an act", x.place(11, 0), -1);
+        due("undo", x.undo(), 0);
+        due("place, asked first behind undo", x.place(11, 7), HelperCheck.bits(1));
+        due("first(11, 11)", x.first(11, 11), 6);
+        due("first(11, 12)", x.first(11, 12), -1);
+    }
+
+    /** Twelve types in one line: all rows are full. */
+    private static void fullWorld() {
+        StringBuilder text = new StringBuilder("type A");
+        for (char name = 'B'; name <= 'L'; name++) {
+            text.append(";type ").append(name).append(" of ").append((char) (name - 1));
+        }
+        TraitLines x = HelperCheck.told(text.toString());
+        lineIs(x, 11, 11, 10, 9, 8, 7, 6, 5, 4, 3, 2, 1, 0);
+        due("over(11)", x.over(11), 4095);
+        due("orders(11)", x.orders(11), 1);
+        due("first(11, 11)", x.first(11, 11), 0);
+        due("place(11, 0)", x.place(11, 0), HelperCheck.bits(11));
+        int[] counts = {12, 12, 0, 0, 4095, 12, 0, 0, 0, 0, 2048};
+        for (int what = 0; what < counts.length; what++) {
+            due("count(" + what + ") of a full world", x.count(what), counts[what]);
+        }
+        due("find", x.find(25), -1);
+        due("join", x.join(11, 0), 2);
+        due("join", x.join(11, 1), 3);
+        ringIs(x, 11, 1, 0);
+        due("leave", x.leave(11, 0), 2);
+        due("join", x.join(11, 0), 3);
+        lineIs(x, 11, 11, 10, 9, 8, 7, 6, 5, 4, 3, 2, 1, 0);
+        due("keep", x.keep(0), 12);
+        due("back", x.back(0), 12);
+        lineIs(x, 11, 11, 10, 9, 8, 7, 6, 5, 4, 3, 2, 1, 0);
     }
 }

@@ -164,6 +164,9 @@ public final class SendTest {
         due("both empty", x.alike(5, 6), 1);
         due("give", x.give(2, 0, 4), 1);
         due("another value", x.alike(0, 2), 0);
+        due("answers", HelperCheck.told("type A:a=1 b=z c=1 d=d y=c z=a").answers(0), HelperCheck.bits(0, 1, 2, 24, 25));
+        due("give", x.give(1, 25, 4), 0);
+        due("answers, asked first behind an act", x.answers(1), HelperCheck.bits(0, 1, 25));
     }
 
     private static void origins() {
@@ -183,5 +186,27 @@ public final class SendTest {
         due("mean(3)", x.mean(3), Double.doubleToLongBits(8.0 / 3.0));
         due("mean(4)", x.mean(4), Double.doubleToLongBits(Double.NaN));
         due("mean(-1)", x.mean(-1), Double.doubleToLongBits(Double.NaN));
+        x = HelperCheck.told("type A:a=1;type B:a=1 b=a+a");
+        due("just 1", x.mean(0), Double.doubleToLongBits(1.0));
+        due("just 2", x.mean(1), Double.doubleToLongBits(2.0));
+        manyMeans();
+    }
+
+    /** a takes 1 call, b to h 2, 3, 4, 5, 6, 11, 21: all sets of these with a. */
+    private static void manyMeans() {
+        int[] calls = {1, 2, 3, 4, 5, 6, 11, 21};
+        for (int set = 1; set < 256; set += 2) {
+            TraitLines x = HelperCheck.told("type Z:a=1 b=a c=a+a d=a+a+a e=a+a+a+a f=e g=e+e h=e+e+e+e");
+            int sum = 0;
+            for (int member = 7; member > 0; member--) {
+                boolean stays = (set >> member & 1) != 0 || member == 4 && set >= 32;
+                if (!stays) {
+                    x.take(0, member);
+                }
+                sum += stays ? calls[member] : 0;
+            }
+            int members = Integer.bitCount(x.answers(0));
+            due("mean of set " + set, x.mean(0), Double.doubleToLongBits((double) (sum + 1) / (double) members));
+        }
     }
 }

@@ -81,6 +81,9 @@ public final class TapeTest {
         good("trait T;type A uses T(-z -b -c -d -e a>a)", 2);
         good("type A;type B;type C;type D;type E;type F;type G;type H;type I;type J;type K;type L", 12);
         good("type A:a?b?c?d?e?f?g?h?", 1);
+        good("type A:a=" + " ".repeat(390) + "b", 1);
+        good("type A:a=" + "0".repeat(388) + "999", 1);
+        good("type Z:z=z+0+9 y=999", 1);
     }
 
     private static void faultsOfUnits() {
@@ -200,6 +203,8 @@ public final class TapeTest {
         fault("type A:^A", 1);
         fault("type A:^=", 1);
         fault("type A:a^", 1);
+        fault("type A:^zz?", 1);
+        fault("type A:^az?", 1);
         fault("type A:a ^b", 1);
         fault("type A:a^+", 1);
         fault("type A:a?^?", 1);
