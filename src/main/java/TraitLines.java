@@ -158,28 +158,25 @@ public final class TraitLines {
             return NONE;
         }
         Unit owner = world.units[unit];
-        boolean told = owner.tells(member);
-        if (owner.termCounts[member] == 1 && owner.termAt(member, 0) == n) {
-            return ALREADY;
+        boolean already = owner.termCounts[member] == 1 && owner.termAt(member, 0) == n;
+        int answer = already ? ALREADY : beginMember(unit, member);
+        if (answer >= 0) {
+            owner.addTerm(member, n);
         }
-        if (!told && owner.members >= MAX_MEMBERS) {
-            return TOO_MANY;
-        }
-        beginAct(unit);
-        owner.require(member);
-        owner.addTerm(member, n);
-        return told ? 1 : 0;
+        return answer;
     }
 
     public int need(int unit, int member) {
         if (!world.isUnit(unit) || !isLetter(member)) {
             return NONE;
         }
+        return world.units[unit].requires(member) ? ALREADY : beginMember(unit, member);
+    }
+
+    /** The MEMBER is REQUIRED then, which give() makes a BODY; nothing happens where there are too many. */
+    private int beginMember(int unit, int member) {
         Unit owner = world.units[unit];
         boolean told = owner.tells(member);
-        if (owner.requires(member)) {
-            return ALREADY;
-        }
         if (!told && owner.members >= MAX_MEMBERS) {
             return TOO_MANY;
         }
@@ -977,19 +974,14 @@ public final class TraitLines {
         private boolean readParents(Unit unit) {
             pass();
             for (int k = 0; k <= MAX_IN_ROW; k++) {
-                int name = nameHere();
-                if (name == NONE) {
+                if (nameHere() == NONE) {
                     return k > 0 || refuse(WRONG);
                 }
-                int parent = told.indexOf(name);
-                if (!told.isType(parent) || unit.parents.placeOf(parent) != NONE) {
-                    return refuse(NOT_AS_TOLD);
-                }
-                if (k >= MAX_IN_ROW) {
-                    return refuse(ONE_TOO_MANY);
+                int parent = readOfRow(unit.parents, false);
+                if (parent == NONE) {
+                    return false;
                 }
                 unit.parents.add(parent);
-                pass();
             }
             return true;
         }
@@ -997,24 +989,35 @@ public final class TraitLines {
         private boolean readTraits(Unit unit) {
             pass();
             for (int k = 0; k <= MAX_IN_ROW; k++) {
-                int name = nameHere();
-                if (name == NONE) {
+                if (nameHere() == NONE) {
                     return k > 0 || refuse(WRONG);
                 }
-                int trait = told.indexOf(name);
-                if (!told.isTrait(trait) || unit.traits.placeOf(trait) != NONE) {
-                    return refuse(NOT_AS_TOLD);
-                }
-                if (k >= MAX_IN_ROW) {
-                    return refuse(ONE_TOO_MANY);
+                int trait = readOfRow(unit.traits, true);
+                if (trait == NONE) {
+                    return false;
                 }
                 unit.addTrait(trait);
-                pass();
                 if (sign == '(' && !readChanges(unit, k)) {
                     return false;
                 }
             }
             return true;
+        }
+
+        /** The unit of the NAME here, if it may come into the row next; else NONE, and the FAULT is told. */
+        private int readOfRow(Row row, boolean trait) {
+            int unit = told.indexOf(nameHere());
+            boolean fits = trait ? told.isTrait(unit) : told.isType(unit);
+            if (!fits || row.placeOf(unit) != NONE) {
+                refuse(NOT_AS_TOLD);
+                return NONE;
+            }
+            if (row.size >= MAX_IN_ROW) {
+                refuse(ONE_TOO_MANY);
+                return NONE;
+            }
+            pass();
+            return unit;
         }
 
         private boolean readChanges(Unit unit, int k) {
