@@ -1,16 +1,40 @@
-/** Counts answers that are not as due, and feeds texts. */
+/** Counts answers that are not as due, feeds texts, and looks at whole worlds. */
 final class HelperCheck {
     static final int NONE = -1;
     static final int NO_ANSWER = Integer.MIN_VALUE;
+    static final int LEAST = Integer.MIN_VALUE;
+    static final int MOST = Integer.MAX_VALUE;
+    /** Twelve types, the first without a parent, each other one of the one ahead of it. */
+    static final String LADDER = ladder();
     private static int wrong = 0;
+    private static int made = 0;
+    private static String about = "";
 
     private HelperCheck() {
     }
 
+    /** What is printed ahead of each answer that is not as due. */
+    static void about(String what) {
+        about = what;
+    }
+
+    /** How many answers were looked at so far. */
+    static int made() {
+        return made;
+    }
+
     static void due(String call, long got, long want) {
+        made++;
         if (got != want) {
             wrong++;
-            System.out.println(call + " answered " + got + ", due is " + want);
+            System.out.println(about + call + " answered " + got + ", due is " + want);
+        }
+    }
+
+    static void holds(String what, boolean good) {
+        if (!good) {
+            wrong++;
+            System.out.println(about + "not so: " + what);
         }
     }
 
@@ -30,9 +54,9 @@ final class HelperCheck {
                 int sign = from + k < text.length() ? text.charAt(from + k) & 255 : 0;
                 n[k / 4] |= sign << 24 - 8 * (k % 4);
             }
-            due("feed for " + text, x.feed(n[0], n[1], n[2], n[3], n[4]), before + from + 20);
+            holds("it is fed: " + text, x.feed(n[0], n[1], n[2], n[3], n[4]) == before + from + 20);
         }
-        due("end for " + text, x.end(before + text.length()), before + text.length());
+        holds("it ends: " + text, x.end(before + text.length()) == before + text.length());
     }
 
     static int tellText(TraitLines x, String text) {
@@ -44,10 +68,19 @@ final class HelperCheck {
     static TraitLines told(String text) {
         TraitLines x = new TraitLines();
         int units = tellText(x, text);
-        if (units < 0) {
-            due("tell of " + text, units, 0);
-        }
+        holds("it is told: " + text, units >= 0);
         return x;
+    }
+
+    /** The place of the fault is marked in the text by '^', which does not belong to it. */
+    static void fault(String marked, int why) {
+        int place = marked.indexOf('^');
+        String text = marked.substring(0, place) + marked.substring(place + 1);
+        due("fault of " + marked, tellText(new TraitLines(), text), -2 - (8 * place + why));
+    }
+
+    static void good(String text, int units) {
+        due("tell of " + text, tellText(new TraitLines(), text), units);
     }
 
     static int bits(int... places) {
@@ -58,7 +91,73 @@ final class HelperCheck {
         return bits;
     }
 
-    static int letter(char c) {
-        return c - 'a';
+    private static String ladder() {
+        StringBuilder text = new StringBuilder("type A");
+        for (char name = 'B'; name <= 'L'; name++) {
+            text.append(";type ").append(name).append(" of ").append((char) (name - 1));
+        }
+        return text.toString();
+    }
+
+    /** Numbers that are no unit in a world of so many. */
+    static int[] noUnits(int units) {
+        return new int[] {-1, units, units + 1, 12, 13, 31, 32, 33, LEAST, MOST, -2, -32};
+    }
+
+    static final int[] NO_LETTERS = {-1, 26, 27, 31, 32, 58, LEAST, MOST, -2, -26};
+
+    /** Numbers that are no place in a row of so many. */
+    static int[] noPlaces(int size) {
+        return new int[] {-1, size, size + 1, 12, 26, 32, LEAST, MOST, -2, -26};
+    }
+
+    /** All that is told, and how many acts, bytes and shelves there are: some 30 calls a unit. */
+    static String picture(TraitLines x) {
+        StringBuilder picture = new StringBuilder();
+        for (int what = 0; what <= 10; what++) {
+            picture.append(x.count(what)).append(' ');
+        }
+        int units = x.count(0);
+        for (int unit = 0; unit < units; unit++) {
+            picture.append('\n');
+            for (int what = 0; what < 10; what++) {
+                picture.append(x.unit(unit, what)).append(' ');
+            }
+            int parents = x.unit(unit, 2);
+            for (int k = 0; k < parents; k++) {
+                picture.append(" of ").append(x.parent(unit, k));
+            }
+            pictureUses(x, unit, picture);
+            pictureOwn(x, unit, picture);
+        }
+        return picture.toString();
+    }
+
+    private static void pictureUses(TraitLines x, int unit, StringBuilder picture) {
+        int uses = x.unit(unit, 3);
+        for (int k = 0; k < uses; k++) {
+            picture.append(" uses ").append(x.used(unit, k));
+            for (int member = 0; member < 26; member += member < 6 ? 1 : 19) {
+                picture.append(' ').append(x.becomes(unit, k, member));
+            }
+        }
+    }
+
+    private static void pictureOwn(TraitLines x, int unit, StringBuilder picture) {
+        int own = x.unit(unit, 4);
+        for (int member = 0; member < 26; member++) {
+            if ((own >> member & 1) != 0) {
+                int terms = x.body(unit, member, -1);
+                picture.append(" own ").append(member);
+                for (int k = 0; k < terms; k++) {
+                    picture.append(' ').append(x.body(unit, member, k));
+                }
+            }
+        }
+    }
+
+    /** Nothing happened since the picture. */
+    static void unchanged(TraitLines x, String before) {
+        due("what is otherwise than it was", picture(x).equals(before) ? 0 : 1, 0);
     }
 }

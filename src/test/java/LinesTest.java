@@ -161,11 +161,7 @@ public final class LinesTest {
 
     /** Twelve types in one line: all rows are full. */
     private static void fullWorld() {
-        StringBuilder text = new StringBuilder("type A");
-        for (char name = 'B'; name <= 'L'; name++) {
-            text.append(";type ").append(name).append(" of ").append((char) (name - 1));
-        }
-        TraitLines x = HelperCheck.told(text.toString());
+        TraitLines x = HelperCheck.told(HelperCheck.LADDER);
         lineIs(x, 11, 11, 10, 9, 8, 7, 6, 5, 4, 3, 2, 1, 0);
         due("over(11)", x.over(11), 4095);
         due("orders(11)", x.orders(11), 1);

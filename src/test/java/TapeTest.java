@@ -18,15 +18,12 @@ public final class TapeTest {
         HelperCheck.due(call, got, want);
     }
 
-    /** The place of the fault is marked in the text by '^', which does not belong to it. */
     private static void fault(String marked, int why) {
-        int place = marked.indexOf('^');
-        String text = marked.substring(0, place) + marked.substring(place + 1);
-        due("fault of " + marked, HelperCheck.tellText(new TraitLines(), text), -2 - (8 * place + why));
+        HelperCheck.fault(marked, why);
     }
 
     private static void good(String text, int units) {
-        due("tell of " + text, HelperCheck.tellText(new TraitLines(), text), units);
+        HelperCheck.good(text, units);
     }
 
     private static void newObject() {
