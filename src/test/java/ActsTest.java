@@ -1,5 +1,5 @@
 /** Promises 5 to 15: the acts, undo, keep, back. */
-public final class ActsTest {
+public final class ActsTest extends HelperCheck {
     public static void main(String[] args) {
         join();
         leave();
@@ -12,15 +12,11 @@ public final class ActsTest {
         undo();
         undoOfEachAct();
         shelves();
-        HelperCheck.finish("ActsTest");
-    }
-
-    private static void due(String call, long got, long want) {
-        HelperCheck.due(call, got, want);
+        finish("ActsTest");
     }
 
     private static void join() {
-        TraitLines x = HelperCheck.told("type A;type B;type C;type D;type E;trait T;type F");
+        TraitLines x = told("type A;type B;type C;type D;type E;trait T;type F");
         due("join(6, 3)", x.join(6, 3), 1);
         due("join(6, 3) again", x.join(6, 3), -2);
         due("join(6, 6)", x.join(6, 6), -1);
@@ -43,7 +39,7 @@ public final class ActsTest {
     }
 
     private static void leave() {
-        TraitLines x = HelperCheck.told("type A;type B;type C;type D of A B C;trait T");
+        TraitLines x = told("type A;type B;type C;type D of A B C;trait T");
         due("leave(3, 1)", x.leave(3, 1), 2);
         due("leave(3, 1) again", x.leave(3, 1), -1);
         due("parent 0", x.parent(3, 0), 0);
@@ -62,7 +58,7 @@ public final class ActsTest {
     }
 
     private static void turn() {
-        TraitLines x = HelperCheck.told("type A;type B;type C;type D;type E of A B C D;type F of A B C;type G of A;trait T");
+        TraitLines x = told("type A;type B;type C;type D;type E of A B C D;type F of A B C;type G of A;trait T");
         due("turn(4)", x.turn(4), 4);
         for (int k = 0; k < 4; k++) {
             due("turned parent", x.parent(4, k), 3 - k);
@@ -80,7 +76,7 @@ public final class ActsTest {
     }
 
     private static void give() {
-        TraitLines x = HelperCheck.told("type A:a?b=5c=5+0d=super;trait T");
+        TraitLines x = told("type A:a?b=5c=5+0d=super;trait T");
         due("give to required", x.give(0, 0, 0), 1);
         due("its terms", x.body(0, 0, -1), 1);
         due("its number", x.body(0, 0, 0), 0);
@@ -107,7 +103,7 @@ public final class ActsTest {
     }
 
     private static void need() {
-        TraitLines x = HelperCheck.told("type A:a?b=5;trait T");
+        TraitLines x = told("type A:a?b=5;trait T");
         due("need what is", x.need(0, 0), -2);
         due("need a body", x.need(0, 1), 1);
         due("it has no terms", x.body(0, 1, -1), 0);
@@ -126,7 +122,7 @@ public final class ActsTest {
     }
 
     private static void take() {
-        TraitLines x = HelperCheck.told("type A:a?b=5;trait T:a=1");
+        TraitLines x = told("type A:a?b=5;trait T:a=1");
         due("take a", x.take(0, 0), 1);
         due("take a again", x.take(0, 0), -1);
         due("take b", x.take(0, 1), 0);
@@ -143,7 +139,7 @@ public final class ActsTest {
     }
 
     private static void use() {
-        TraitLines x = HelperCheck.told("trait A;trait B;trait C;trait D;trait E;type F;trait G uses A(-a)");
+        TraitLines x = told("trait A;trait B;trait C;trait D;trait E;type F;trait G uses A(-a)");
         due("use(5, 2)", x.use(5, 2), 1);
         due("use(5, 2) again", x.use(5, 2), -2);
         due("use(5, 6)", x.use(5, 6), -1);
@@ -166,7 +162,7 @@ public final class ActsTest {
     }
 
     private static void change() {
-        TraitLines x = HelperCheck.told("trait S:a=1;trait T:a=2;type A uses T S(a>a -b);type B");
+        TraitLines x = told("trait S:a=1;trait T:a=2;type A uses T S(a>a -b);type B");
         due("told to stay is no change", x.change(2, 0, 2, 3), 2);
         due("it is so", x.change(2, 0, 2, 3), -2);
         due("it stays", x.change(2, 0, 0, 0), -2);
@@ -195,7 +191,7 @@ public final class ActsTest {
     }
 
     private static void undo() {
-        TraitLines x = HelperCheck.told("type A:a=0");
+        TraitLines x = told("type A:a=0");
         for (int n = 1; n <= 12; n++) {
             due("give", x.give(0, 0, n), 1);
             due("refused", x.give(0, 0, n), -2);
@@ -217,8 +213,8 @@ public final class ActsTest {
     }
 
     private static void undoOfEachAct() {
-        TraitLines x = HelperCheck.told("trait S:a=1;trait T:b=2;type A;type B;type C of A B uses S(a>b):c=3+c d?");
-        long before = picture(x);
+        TraitLines x = told("trait S:a=1;trait T:b=2;type A;type B;type C of A B uses S(a>b):c=3+c d?");
+        String before = picture(x);
         due("join", x.join(3, 2), 1);
         due("leave", x.leave(4, 2), 1);
         due("join", x.join(4, 2), 2);
@@ -232,25 +228,7 @@ public final class ActsTest {
         for (int n = 9; n >= 0; n--) {
             due("undo", x.undo(), n);
         }
-        due("all as it was", picture(x), before);
-    }
-
-    /** Many answers in one number. */
-    private static long picture(TraitLines x) {
-        long sum = 0;
-        for (int unit = 0; unit < 5; unit++) {
-            for (int what = 0; what < 10; what++) {
-                sum = sum * 31 + x.unit(unit, what);
-            }
-            for (int k = 0; k < 4; k++) {
-                sum = (sum * 31 + x.parent(unit, k)) * 31 + x.used(unit, k);
-            }
-            for (int member = 0; member < 5; member++) {
-                sum = (sum * 31 + x.body(unit, member, -1)) * 31 + x.body(unit, member, 0);
-                sum = (sum * 31 + x.becomes(unit, 0, member)) * 31 + x.flat(unit, member, 1);
-            }
-        }
-        return sum;
+        unchanged(x, before);
     }
 
     private static void shelves() {
@@ -264,14 +242,14 @@ public final class ActsTest {
         due("shelves", x.count(9), 1);
         due("back(0)", x.back(0), 0);
         due("back(1)", x.back(1), -2);
-        HelperCheck.tellText(x, "trait T:a=1;type A uses T(a>b)");
+        tellText(x, "trait T:a=1;type A uses T(a>b)");
         due("give", x.give(1, 0, 7), 0);
         due("keep(1)", x.keep(1), 2);
         due("shelves", x.count(9), 3);
         due("keep is no act, and forgets none", x.count(7), 1);
         due("give", x.give(1, 0, 8), 1);
         due("change", x.change(1, 0, 0, -1), 1);
-        HelperCheck.feedText(x, "type");
+        feedText(x, "type");
         due("back(1)", x.back(1), 2);
         due("as it was kept", x.send(1, 0, 1), 7);
         due("as it was kept", x.becomes(1, 0, 0), 1);

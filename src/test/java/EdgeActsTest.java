@@ -1,5 +1,5 @@
 /** Boundary cases of promises 5 to 15, sentence by sentence: the acts, undo, keep, back. */
-public final class EdgeActsTest {
+public final class EdgeActsTest extends HelperCheck {
     private static final String FAMILY = "type A;type B;type C;type D;type E;trait T;type F;type G of A B C D;type H of A;type I of E";
     private static final String OWNERS = "trait T:a=1 b?;type A uses T:c=5 d?e=5+0 f=super g=a;type B";
     private static final String USERS = "trait A:a=1;trait B;trait C;trait D;trait E;type F;type G uses A B C D;trait H uses E(-a)";
@@ -7,14 +7,6 @@ public final class EdgeActsTest {
 
     public static void main(String[] args) throws Exception {
         HelperEdges.run(EdgeActsTest.class, 5, 15);
-    }
-
-    private static void due(String call, long got, long want) {
-        HelperCheck.due(call, got, want);
-    }
-
-    private static TraitLines told(String text) {
-        return HelperCheck.told(text);
     }
 
     private static void parentsAre(TraitLines x, int type, int... due) {
@@ -95,7 +87,7 @@ public final class EdgeActsTest {
     static void shelvesHoldTheWorld() {
         TraitLines x = told("type A:a=1");
         due("give", x.give(0, 0, 2), 1);
-        HelperCheck.feedText(x, "type");
+        feedText(x, "type");
         due("keep(-1)", x.keep(-1), -1);
         due("keep(0)", x.keep(0), 1);
         due("keep(2)", x.keep(2), -1);
@@ -128,20 +120,21 @@ public final class EdgeActsTest {
         due("the least", x.join(1, 0), 1);
         due("the greatest", x.join(9, 8), 2);
         parentsAre(x, 9, 4, 8);
+        due("all are acts", x.count(7), 6);
     }
 
     @HelperPromise(value = 5, says = "NONE, and nothing happens, if one of both is no TYPE there")
     static void joinOfNoType() {
         TraitLines x = told("type A;trait T;type B;type C of A");
         due("join", x.join(3, 2), 2);
-        String before = HelperCheck.picture(x);
-        for (int no : HelperCheck.noUnits(4)) {
+        String before = picture(x);
+        for (int no : noUnits(4)) {
             due("join(" + no + ", 0)", x.join(no, 0), -1);
             due("join(3, " + no + ")", x.join(3, no), -1);
         }
         due("a trait has none", x.join(1, 0), -1);
         due("a trait is none", x.join(3, 1), -1);
-        HelperCheck.unchanged(x, before);
+        unchanged(x, before);
         due("in no world", new TraitLines().join(0, 0), -1);
         due("in no world", new TraitLines().join(1, 0), -1);
     }
@@ -149,25 +142,25 @@ public final class EdgeActsTest {
     @HelperPromise(value = 5, says = "or the second is not told ahead of the first")
     static void joinOfOneBehind() {
         TraitLines x = told("type A;type B;type C of B");
-        String before = HelperCheck.picture(x);
+        String before = picture(x);
         due("itself", x.join(0, 0), -1);
         due("itself", x.join(2, 2), -1);
         due("the next one", x.join(0, 1), -1);
         due("one that is of it", x.join(1, 2), -1);
         due("a later one", x.join(0, 2), -1);
-        HelperCheck.unchanged(x, before);
+        unchanged(x, before);
         due("one ahead", x.join(1, 0), 1);
     }
 
     @HelperPromise(value = 5, says = "-2: it is one")
     static void joinOfOneThatIs() {
         TraitLines x = told(FAMILY);
-        String before = HelperCheck.picture(x);
+        String before = picture(x);
         for (int parent = 0; parent < 4; parent++) {
             due("join(7, " + parent + ")", x.join(7, parent), -2);
         }
         due("the only one", x.join(8, 0), -2);
-        HelperCheck.unchanged(x, before);
+        unchanged(x, before);
         due("a parent's parent is none", told("type A;type B of A;type C of B").join(2, 0), 2);
         due("leave", x.leave(7, 3), 3);
         due("it is none now", x.join(7, 3), 4);
@@ -176,10 +169,10 @@ public final class EdgeActsTest {
     @HelperPromise(value = 5, says = "-3: there are 4")
     static void joinOfAFifth() {
         TraitLines x = told(FAMILY);
-        String before = HelperCheck.picture(x);
+        String before = picture(x);
         due("a 5th", x.join(7, 4), -3);
         due("a 5th", x.join(7, 6), -3);
-        HelperCheck.unchanged(x, before);
+        unchanged(x, before);
         due("leave", x.leave(7, 0), 3);
         due("a 4th", x.join(7, 4), 4);
         due("a 5th", x.join(7, 0), -3);
@@ -206,8 +199,8 @@ public final class EdgeActsTest {
     static void leaveOfNone() {
         TraitLines x = told("type A;type B of A;type C of B;trait T;type D uses T");
         due("join", x.join(4, 1), 1);
-        String before = HelperCheck.picture(x);
-        for (int no : HelperCheck.noUnits(5)) {
+        String before = picture(x);
+        for (int no : noUnits(5)) {
             due("leave(" + no + ", 0)", x.leave(no, 0), -1);
             due("leave(2, " + no + ")", x.leave(2, no), -1);
         }
@@ -217,7 +210,7 @@ public final class EdgeActsTest {
         due("of a trait", x.leave(3, 0), -1);
         due("a trait", x.leave(4, 3), -1);
         due("of one that has none", x.leave(0, 0), -1);
-        HelperCheck.unchanged(x, before);
+        unchanged(x, before);
         due("leave", x.leave(2, 1), 0);
         due("once more", x.leave(2, 1), -1);
         due("in no world", new TraitLines().leave(0, 0), -1);
@@ -242,22 +235,22 @@ public final class EdgeActsTest {
     @HelperPromise(value = 7, says = "NONE, and nothing happens, without that TYPE")
     static void turnOfNoType() {
         TraitLines x = told("type A;type B;trait T;type C of A B");
-        String before = HelperCheck.picture(x);
-        for (int no : HelperCheck.noUnits(4)) {
+        String before = picture(x);
+        for (int no : noUnits(4)) {
             due("turn(" + no + ")", x.turn(no), -1);
         }
         due("a trait", x.turn(2), -1);
-        HelperCheck.unchanged(x, before);
+        unchanged(x, before);
         due("in no world", new TraitLines().turn(0), -1);
     }
 
     @HelperPromise(value = 7, says = "-2: it has fewer than 2")
     static void turnOfFewerThanTwo() {
         TraitLines x = told("type A;type B of A;type C of A");
-        String before = HelperCheck.picture(x);
+        String before = picture(x);
         due("none", x.turn(0), -2);
         due("one", x.turn(1), -2);
-        HelperCheck.unchanged(x, before);
+        unchanged(x, before);
         due("join", x.join(2, 1), 2);
         due("two", x.turn(2), 2);
     }
@@ -271,10 +264,10 @@ public final class EdgeActsTest {
         due("0", x.body(2, 0, 0), 0);
         due("z", x.give(2, 25, 999), 0);
         due("999", x.body(2, 25, 0), 999);
-        due("a and z alone", x.unit(2, 4), HelperCheck.bits(0, 25));
+        due("a and z alone", x.unit(2, 4), bits(0, 25));
         due("to a trait", x.give(0, 25, 998), 0);
         due("998", x.body(0, 25, 0), 998);
-        due("in the last of twelve", told(HelperCheck.LADDER).give(11, 25, 1), 0);
+        due("in the last of twelve", told(LADDER).give(11, 25, 1), 0);
     }
 
     @HelperPromise(value = 8, says = "in place of what it was: 1 if it was told in that UNIT, else 0")
@@ -291,35 +284,35 @@ public final class EdgeActsTest {
         due("a member", x.give(1, 6, 0), 1);
         due("a was given by a trait", x.give(1, 0, 9), 0);
         due("a is told in the trait still", x.body(0, 0, 0), 1);
-        due("own members", x.unit(1, 4), HelperCheck.bits(0, 2, 3, 4, 5, 6));
+        due("own members", x.unit(1, 4), bits(0, 2, 3, 4, 5, 6));
     }
 
     @HelperPromise(value = 8, says = "NONE, and nothing happens, without that UNIT, letter, n")
     static void giveWithoutThese() {
         TraitLines x = told(OWNERS);
         due("give", x.give(2, 0, 1), 0);
-        String before = HelperCheck.picture(x);
-        for (int no : HelperCheck.noUnits(3)) {
+        String before = picture(x);
+        for (int no : noUnits(3)) {
             due("unit " + no, x.give(no, 2, 1), -1);
         }
-        for (int no : HelperCheck.NO_LETTERS) {
+        for (int no : NO_LETTERS) {
             due("letter " + no, x.give(1, no, 1), -1);
         }
-        for (int no : new int[] {-1, 1000, 1001, HelperCheck.LEAST, HelperCheck.MOST, -999}) {
+        for (int no : new int[] {-1, 1000, 1001, LEAST, MOST, -999}) {
             due("n " + no, x.give(1, 2, no), -1);
             due("n " + no + " of a new one", x.give(1, 25, no), -1);
         }
-        HelperCheck.unchanged(x, before);
+        unchanged(x, before);
         due("in no world", new TraitLines().give(0, 0, 0), -1);
     }
 
     @HelperPromise(value = 8, says = "-2: its BODY is that number alone")
     static void giveWhatIs() {
         TraitLines x = told(OWNERS);
-        String before = HelperCheck.picture(x);
+        String before = picture(x);
         due("5", x.give(1, 2, 5), -2);
         due("1 of a trait", x.give(0, 0, 1), -2);
-        HelperCheck.unchanged(x, before);
+        unchanged(x, before);
         due("5+0 is not 5 alone", x.give(1, 4, 5), 1);
         due("now it is", x.give(1, 4, 5), -2);
         due("required is not 0", x.give(1, 3, 0), 1);
@@ -335,10 +328,10 @@ public final class EdgeActsTest {
     @HelperPromise(value = 8, says = "-3: it is none yet, and there are 8")
     static void giveANinth() {
         TraitLines x = told("type A:a?b?c?d?e?f?g=1 h=1;trait T:a?b?c?d?e?f?g=1");
-        String before = HelperCheck.picture(x);
+        String before = picture(x);
         due("a 9th", x.give(0, 8, 1), -3);
         due("a 9th", x.give(0, 25, 1), -3);
-        HelperCheck.unchanged(x, before);
+        unchanged(x, before);
         due("one of 8", x.give(0, 0, 1), 1);
         due("one of 8", x.give(0, 7, 2), 1);
         due("an 8th", x.give(1, 25, 1), 0);
@@ -359,7 +352,7 @@ public final class EdgeActsTest {
         due("no terms", x.body(1, 4, 0), -2);
         due("a", x.need(2, 0), 0);
         due("z", x.need(2, 25), 0);
-        due("required", x.unit(2, 5), HelperCheck.bits(0, 25));
+        due("required", x.unit(2, 5), bits(0, 25));
         due("of a trait", x.need(0, 0), 1);
         due("a, given by a trait alone", x.need(1, 0), 0);
     }
@@ -367,17 +360,17 @@ public final class EdgeActsTest {
     @HelperPromise(value = 9, says = "as give()")
     static void needRefusedAsGive() {
         TraitLines x = told("trait T:a=1;type A:a?b?c?d?e?f?g=1 h=1");
-        String before = HelperCheck.picture(x);
-        for (int no : HelperCheck.noUnits(2)) {
+        String before = picture(x);
+        for (int no : noUnits(2)) {
             due("unit " + no, x.need(no, 0), -1);
         }
-        for (int no : HelperCheck.NO_LETTERS) {
+        for (int no : NO_LETTERS) {
             due("letter " + no, x.need(0, no), -1);
             due("letter " + no + " where 8 are", x.need(1, no), -1);
         }
         due("a 9th", x.need(1, 8), -3);
         due("a 9th", x.need(1, 25), -3);
-        HelperCheck.unchanged(x, before);
+        unchanged(x, before);
         due("one of 8", x.need(1, 7), 1);
         due("in no world", new TraitLines().need(0, 0), -1);
     }
@@ -385,10 +378,10 @@ public final class EdgeActsTest {
     @HelperPromise(value = 9, says = "-2: it is.")
     static void needWhatIs() {
         TraitLines x = told(OWNERS);
-        String before = HelperCheck.picture(x);
+        String before = picture(x);
         due("d", x.need(1, 3), -2);
         due("b of a trait", x.need(0, 1), -2);
-        HelperCheck.unchanged(x, before);
+        unchanged(x, before);
         due("b, required by a trait alone", x.need(1, 1), 0);
         due("now it is", x.need(1, 1), -2);
         due("a new one", x.need(2, 1), 0);
@@ -417,17 +410,17 @@ public final class EdgeActsTest {
     static void takeOfNone() {
         TraitLines x = told(OWNERS);
         due("need", x.need(1, 25), 0);
-        String before = HelperCheck.picture(x);
-        for (int no : HelperCheck.noUnits(3)) {
+        String before = picture(x);
+        for (int no : noUnits(3)) {
             due("unit " + no, x.take(no, 0), -1);
         }
-        for (int no : HelperCheck.NO_LETTERS) {
+        for (int no : NO_LETTERS) {
             due("letter " + no, x.take(1, no), -1);
         }
         due("given by a trait alone", x.take(1, 0), -1);
         due("required by a trait alone", x.take(1, 1), -1);
         due("of a unit that has none", x.take(2, 0), -1);
-        HelperCheck.unchanged(x, before);
+        unchanged(x, before);
         due("take", x.take(1, 25), 5);
         due("once more", x.take(1, 25), -1);
         due("in no world", new TraitLines().take(0, 0), -1);
@@ -465,8 +458,8 @@ public final class EdgeActsTest {
     static void useWithoutThese() {
         TraitLines x = told("trait S;type A;trait T;type B uses S");
         due("use", x.use(1, 0), 1);
-        String before = HelperCheck.picture(x);
-        for (int no : HelperCheck.noUnits(4)) {
+        String before = picture(x);
+        for (int no : noUnits(4)) {
             due("unit " + no, x.use(no, 0), -1);
             due("trait " + no, x.use(3, no), -1);
         }
@@ -475,7 +468,7 @@ public final class EdgeActsTest {
         due("itself", x.use(3, 3), -1);
         due("a later one", x.use(1, 2), -1);
         due("a later one", x.use(0, 2), -1);
-        HelperCheck.unchanged(x, before);
+        unchanged(x, before);
         due("one ahead", x.use(3, 2), 2);
         due("in no world", new TraitLines().use(0, 0), -1);
     }
@@ -483,21 +476,21 @@ public final class EdgeActsTest {
     @HelperPromise(value = 11, says = "-2: it uses it")
     static void useOfOneThatIs() {
         TraitLines x = told(USERS);
-        String before = HelperCheck.picture(x);
+        String before = picture(x);
         for (int trait = 0; trait < 4; trait++) {
             due("use(6, " + trait + ")", x.use(6, trait), -2);
         }
         due("with changes", x.use(7, 4), -2);
-        HelperCheck.unchanged(x, before);
+        unchanged(x, before);
         due("one that its trait uses", told("trait S;trait T uses S;type A uses T").use(2, 0), 2);
     }
 
     @HelperPromise(value = 11, says = "-3: it uses 4")
     static void useOfAFifth() {
         TraitLines x = told(USERS);
-        String before = HelperCheck.picture(x);
+        String before = picture(x);
         due("a 5th", x.use(6, 4), -3);
-        HelperCheck.unchanged(x, before);
+        unchanged(x, before);
         for (int trait = 0; trait < 4; trait++) {
             due("use", x.use(5, trait), trait + 1);
         }
@@ -555,12 +548,12 @@ public final class EdgeActsTest {
     static void changeWithoutThese() {
         TraitLines x = told("trait S;trait T;trait U uses T;type A uses S(-a)U");
         due("change", x.change(3, 0, 1, 2), 2);
-        String before = HelperCheck.picture(x);
-        for (int no : HelperCheck.noUnits(4)) {
+        String before = picture(x);
+        for (int no : noUnits(4)) {
             due("unit " + no, x.change(no, 0, 0, 1), -1);
             due("trait " + no, x.change(3, no, 0, 1), -1);
         }
-        for (int no : HelperCheck.NO_LETTERS) {
+        for (int no : NO_LETTERS) {
             due("letter " + no, x.change(3, 0, no, 1), -1);
             due("letter " + no + " out", x.change(3, 0, no, -1), -1);
             due("to " + no, no == -1 ? -1 : x.change(3, 0, 3, no), -1);
@@ -568,30 +561,30 @@ public final class EdgeActsTest {
         due("one that its trait uses", x.change(3, 1, 0, 1), -1);
         due("a unit that uses none", x.change(0, 0, 0, 1), -1);
         due("a type", x.change(3, 3, 0, 1), -1);
-        HelperCheck.unchanged(x, before);
+        unchanged(x, before);
         due("in no world", new TraitLines().change(0, 0, 0, 0), -1);
     }
 
     @HelperPromise(value = 12, says = "-2: it is so")
     static void changeThatIs() {
         TraitLines x = told(CHANGERS);
-        String before = HelperCheck.picture(x);
+        String before = picture(x);
         due("it becomes that", x.change(2, 0, 0, 1), -2);
         due("it is left out", x.change(2, 0, 2, -1), -2);
         due("it stays", x.change(2, 0, 3, 3), -2);
         due("it stays", x.change(2, 0, 25, 25), -2);
         due("one of six", x.change(3, 0, 5, -1), -2);
         due("it stays, beside six", x.change(3, 0, 6, 6), -2);
-        HelperCheck.unchanged(x, before);
+        unchanged(x, before);
     }
 
     @HelperPromise(value = 12, says = "-3: there would be 7")
     static void changeOfASeventh() {
         TraitLines x = told(CHANGERS);
-        String before = HelperCheck.picture(x);
+        String before = picture(x);
         due("a 7th", x.change(3, 0, 6, 7), -3);
         due("a 7th out", x.change(3, 0, 25, -1), -3);
-        HelperCheck.unchanged(x, before);
+        unchanged(x, before);
         due("one of six otherwise", x.change(3, 0, 5, 6), 6);
         due("one of six less", x.change(3, 0, 5, 5), 5);
         due("a 6th", x.change(3, 0, 25, -1), 6);
@@ -605,11 +598,11 @@ public final class EdgeActsTest {
         for (int act = 0; act < 10; act++) {
             TraitLines x = told("trait S:a=1;trait T;type A;type B;type C of A B uses S(a>b):c=3+c d?");
             due("an act ahead of it", x.give(3, 25, 9), 0);
-            String before = HelperCheck.picture(x);
+            String before = picture(x);
             due("act " + act, doAct(x, act) >= 0 ? 1 : 0, 1);
             due("two acts", x.count(7), 2);
             due("undo of act " + act, x.undo(), 1);
-            HelperCheck.unchanged(x, before);
+            unchanged(x, before);
             due("undo of the one ahead", x.undo(), 0);
             due("it is none", x.body(3, 25, -1), -1);
         }
@@ -652,22 +645,40 @@ public final class EdgeActsTest {
         }
     }
 
+    @HelperPromise(value = 13, says = "The last ACT is UNDONE")
+    static void undoOfHowMany() {
+        TraitLines x = told("trait S;type A;type B uses S(-a -b -c -d -e):a?b?c?d?e?f?g?");
+        for (int round = 0; round < 2; round++) {
+            due("a 6th change", x.change(2, 0, 25, -1), 6);
+            due("a 7th", x.change(2, 0, 24, -1), -3);
+            due("an 8th member", x.need(2, 25), 0);
+            due("a 9th", x.need(2, 24), -3);
+            due("a parent", x.join(2, 1), 1);
+            due("undo join", x.undo(), 2);
+            due("undo need", x.undo(), 1);
+            due("undo change", x.undo(), 0);
+            due("five changes", x.becomes(2, 0, 25), 25);
+            due("seven members", x.unit(2, 4), 127);
+            due("no parents", x.unit(2, 2), 0);
+        }
+    }
+
     @HelperPromise(value = 13, says = "NONE, and nothing happens, if none can")
     static void undoOfNone() {
         due("of a new object", new TraitLines().undo(), -1);
         TraitLines x = told("type A:a=1;type B of A");
-        String before = HelperCheck.picture(x);
+        String before = picture(x);
         due("of a world that was told", x.undo(), -1);
-        HelperCheck.unchanged(x, before);
+        unchanged(x, before);
         for (int n = 10; n < 21; n++) {
             due("give", x.give(0, 0, n), 1);
         }
         for (int n = 9; n >= 0; n--) {
             due("undo", x.undo(), n);
         }
-        before = HelperCheck.picture(x);
+        before = picture(x);
         due("the 11th", x.undo(), -1);
-        HelperCheck.unchanged(x, before);
+        unchanged(x, before);
         due("it is as the first of eleven made it", x.body(0, 0, 0), 10);
         due("an act behind that", x.give(0, 0, 500), 1);
         due("one can", x.undo(), 0);
@@ -681,10 +692,10 @@ public final class EdgeActsTest {
         TraitLines x = new TraitLines();
         due("no world", x.keep(0), 0);
         due("that is kept, too", x.count(9), 1);
-        due("tell", HelperCheck.tellText(x, HelperCheck.LADDER), 12);
+        due("tell", tellText(x, LADDER), 12);
         due("twelve", x.keep(1), 12);
         due("both", x.count(9), 3);
-        due("tell", HelperCheck.tellText(x, "type A"), 1);
+        due("tell", tellText(x, "type A"), 1);
         due("in place of what was kept", x.keep(0), 1);
         due("back(1)", x.back(1), 12);
         due("the last one's line", x.line(11, -1), 12);
@@ -696,11 +707,11 @@ public final class EdgeActsTest {
     static void keepOnNoShelf() {
         TraitLines x = told("type A:a=1");
         due("give", x.give(0, 0, 2), 1);
-        String before = HelperCheck.picture(x);
-        for (int no : new int[] {-1, 2, 3, 32, 33, HelperCheck.LEAST, HelperCheck.MOST}) {
+        String before = picture(x);
+        for (int no : new int[] {-1, 2, 3, 32, 33, LEAST, MOST}) {
             due("keep(" + no + ")", x.keep(no), -1);
         }
-        HelperCheck.unchanged(x, before);
+        unchanged(x, before);
         due("nothing is kept", x.back(0), -2);
         due("nothing is kept", x.back(1), -2);
     }
@@ -709,27 +720,35 @@ public final class EdgeActsTest {
     static void backToAll() {
         TraitLines x = told("trait S:a=1;trait T:b?;type A;type B:z=z;type C of A B uses S(a>b) T(-c):c=3+super d?");
         due("keep", x.keep(0), 5);
-        String before = HelperCheck.picture(x);
+        String before = picture(x);
         due("give", x.give(4, 2, 1), 1);
         due("turn", x.turn(4), 2);
         due("change", x.change(4, 0, 0, -1), 1);
         due("take", x.take(3, 25), 0);
         due("use", x.use(3, 1), 1);
         due("back", x.back(0), 5);
-        HelperCheck.unchanged(x, before);
+        unchanged(x, before);
         due("nothing can be undone", x.undo(), -1);
         due("give", x.give(4, 2, 1), 1);
         due("one act", x.count(7), 1);
         due("back once more", x.back(0), 5);
         due("the shelf did not change along", x.body(4, 2, 1), 1000);
         due("acts", x.count(7), 0);
+        // units of the other kind, and with other changes, stand there meanwhile
+        due("tell", tellText(x, "type V;type W;trait X;trait Y:b=1;trait Z uses X(-a -b -c) Y(-a -b -c)"), 5);
+        due("back from there", x.back(0), 5);
+        unchanged(x, before);
+        due("a second change", x.change(4, 0, 5, -1), 2);
+        due("a second change", x.change(4, 1, 5, -1), 2);
+        due("a third member", x.give(4, 25, 1), 0);
+        due("take", x.take(4, 25), 2);
     }
 
     @HelperPromise(value = 15, says = "how many UNITS")
     static void backToNoneAndTwelve() {
         TraitLines x = new TraitLines();
         due("keep", x.keep(1), 0);
-        due("tell", HelperCheck.tellText(x, HelperCheck.LADDER), 12);
+        due("tell", tellText(x, LADDER), 12);
         due("keep", x.keep(0), 12);
         due("none", x.back(1), 0);
         due("units", x.count(0), 0);
@@ -745,11 +764,11 @@ public final class EdgeActsTest {
         due("keep", x.keep(0), 1);
         due("keep", x.keep(1), 1);
         due("give", x.give(0, 0, 2), 1);
-        String before = HelperCheck.picture(x);
-        for (int no : new int[] {-1, 2, 3, 32, 33, HelperCheck.LEAST, HelperCheck.MOST}) {
+        String before = picture(x);
+        for (int no : new int[] {-1, 2, 3, 32, 33, LEAST, MOST}) {
             due("back(" + no + ")", x.back(no), -1);
         }
-        HelperCheck.unchanged(x, before);
+        unchanged(x, before);
         due("undo", x.undo(), 0);
     }
 
@@ -758,10 +777,10 @@ public final class EdgeActsTest {
         due("of a new object", new TraitLines().back(0), -2);
         TraitLines x = told("type A:a=1");
         due("give", x.give(0, 0, 2), 1);
-        String before = HelperCheck.picture(x);
+        String before = picture(x);
         due("back(0)", x.back(0), -2);
         due("back(1)", x.back(1), -2);
-        HelperCheck.unchanged(x, before);
+        unchanged(x, before);
         due("keep(0)", x.keep(0), 1);
         due("back(1), the other one", x.back(1), -2);
         due("undo", x.undo(), 0);

@@ -1,21 +1,9 @@
 /** Boundary cases of promises 35 and 36, sentence by sentence: find and count. */
-public final class EdgeCountTest {
+public final class EdgeCountTest extends HelperCheck {
     private static final String FULL_OF_TRAITS = "trait A;trait B;trait C;trait D;trait E;trait F;trait G;trait H;trait I;trait J;trait K;trait L";
 
     public static void main(String[] args) throws Exception {
         HelperEdges.run(EdgeCountTest.class, 35, 36);
-    }
-
-    private static void due(String call, long got, long want) {
-        HelperCheck.due(call, got, want);
-    }
-
-    private static TraitLines told(String text) {
-        return HelperCheck.told(text);
-    }
-
-    private static int bits(int... places) {
-        return HelperCheck.bits(places);
     }
 
     @HelperPromise(value = 35, says = "The UNIT of a NAME (A to Z as 0 to 25)")
@@ -24,7 +12,7 @@ public final class EdgeCountTest {
         due("A", x.find(0), 1);
         due("M", x.find(12), 2);
         due("Z", x.find(25), 0);
-        x = told(HelperCheck.LADDER);
+        x = told(LADDER);
         for (int name = 0; name < 12; name++) {
             due("find(" + name + ")", x.find(name), name);
         }
@@ -37,18 +25,18 @@ public final class EdgeCountTest {
     @HelperPromise(value = 35, says = "(A to Z as 0 to 25); NONE.")
     static void findNone() {
         TraitLines x = told("type Z;trait A;type M");
-        for (int no : new int[] {1, 11, 13, 24, -1, 26, 27, 32, 65, 90, HelperCheck.LEAST, HelperCheck.MOST}) {
+        for (int no : new int[] {1, 11, 13, 24, -1, 26, 27, 32, 65, 90, LEAST, MOST}) {
             due("find(" + no + ")", x.find(no), -1);
             due("find(" + no + ") in no world", new TraitLines().find(no), -1);
         }
-        due("tell", HelperCheck.tellText(x, "type B"), 1);
+        due("tell", tellText(x, "type B"), 1);
         due("A is no more", x.find(0), -1);
         due("Z is no more", x.find(25), -1);
-        due("a fault", HelperCheck.tellText(x, "type Z;x") < -2 ? 1 : 0, 1);
+        due("a fault", tellText(x, "type Z;x") < -2 ? 1 : 0, 1);
         due("Z of a text that has a fault", x.find(25), -1);
         due("back of nothing", x.back(0), -2);
         due("keep", x.keep(0), 1);
-        due("tell", HelperCheck.tellText(x, "type A;type Z"), 2);
+        due("tell", tellText(x, "type A;type Z"), 2);
         due("back", x.back(0), 1);
         due("Z is no more", x.find(25), -1);
         due("B", x.find(1), 0);
@@ -57,7 +45,7 @@ public final class EdgeCountTest {
     @HelperPromise(value = 36, says = "What 0: UNITS, 1: TYPES, 2: TRAITS")
     static void howManyUnits() {
         int[][] due = {{0, 0, 0}, {12, 12, 0}, {12, 0, 12}, {3, 2, 1}};
-        TraitLines[] worlds = {new TraitLines(), told(HelperCheck.LADDER), told(FULL_OF_TRAITS), told("type A;trait B;type C")};
+        TraitLines[] worlds = {new TraitLines(), told(LADDER), told(FULL_OF_TRAITS), told("type A;trait B;type C")};
         for (int n = 0; n < 4; n++) {
             for (int what = 0; what < 3; what++) {
                 due("world " + n + ", count(" + what + ")", worlds[n].count(what), due[n][what]);
@@ -83,7 +71,7 @@ public final class EdgeCountTest {
     static void wholeTypes() {
         due("in no world", new TraitLines().count(4), 0);
         due("traits are none", told(FULL_OF_TRAITS).count(4), 0);
-        due("types with nothing", told(HelperCheck.LADDER).count(4), 4095);
+        due("types with nothing", told(LADDER).count(4), 4095);
         TraitLines x = told("trait S:a=1;trait T:a=2;type A:n?;type B of A:n=1;type C of B:m?;type D uses S T;type E of D:a=1;type F uses S(-a)T;type G of E F");
         due("lacking, and in conflict above", x.count(4), bits(3, 7));
         due("change: the conflict goes", x.change(5, 1, 0, -1), 1);
@@ -98,8 +86,9 @@ public final class EdgeCountTest {
     static void longestLine() {
         due("in no world", new TraitLines().count(5), 0);
         due("of traits", told(FULL_OF_TRAITS).count(5), 0);
-        due("of one type", told("trait T;type A").count(5), 1);
-        TraitLines x = told(HelperCheck.LADDER);
+        due("of one type", told("type A").count(5), 1);
+        due("of one type behind a trait", told("trait T;type A").count(5), 1);
+        TraitLines x = told(LADDER);
         due("twelve", x.count(5), 12);
         due("leave", x.leave(6, 5), 0);
         due("six and six", x.count(5), 6);
@@ -107,13 +96,15 @@ public final class EdgeCountTest {
         due("the first six", x.count(5), 6);
         due("a line that is none counts for nothing", told("type A;type B of A;type C of A B").count(5), 2);
         // told in place of a longer one
-        due("tell", HelperCheck.tellText(x, "trait T"), 1);
+        due("tell", tellText(x, "trait T"), 1);
         due("none", x.count(5), 0);
     }
 
     @HelperPromise(value = 36, says = "6: CONFLICTS of all UNITS")
     static void conflictsOfAll() {
         due("in no world", new TraitLines().count(6), 0);
+        due("none in twelve types", told(LADDER).count(6), 0);
+        due("none in twelve traits", told(FULL_OF_TRAITS).count(6), 0);
         due("none", told("trait S:a=1;trait T:b=1;type A uses S T").count(6), 0);
         TraitLines x = told("trait S:a=1 z=1;trait T:a=2 z=2;trait U uses S T;type A uses U;type B uses S T:a=1;type C uses S T(-z):b=1;type D of A");
         due("of traits and of types, by letters", x.count(6), 6);
@@ -158,7 +149,7 @@ public final class EdgeCountTest {
         due("both", x.count(9), 3);
         due("back(0)", x.back(0), 0);
         due("both still", x.count(9), 3);
-        due("tell", HelperCheck.tellText(x, "type A"), 1);
+        due("tell", tellText(x, "type A"), 1);
         due("both still", x.count(9), 3);
         TraitLines y = new TraitLines();
         due("keep(0)", y.keep(0), 0);
@@ -169,7 +160,8 @@ public final class EdgeCountTest {
     static void lowestTypes() {
         due("in no world", new TraitLines().count(10), 0);
         due("traits are none", told(FULL_OF_TRAITS).count(10), 0);
-        due("the last alone", told(HelperCheck.LADDER).count(10), 1 << 11);
+        due("the last alone", told(LADDER).count(10), 1 << 11);
+        due("the only one", told("type A").count(10), bits(0));
         due("a type that nothing is of", told("trait T;type A;type B uses T").count(10), bits(1, 2));
         TraitLines x = told("type A;type B of A;type C of A;type D of B C;type E");
         due("D and E", x.count(10), bits(3, 4));
@@ -184,7 +176,7 @@ public final class EdgeCountTest {
     @HelperPromise(value = 36, says = "NONE for others.")
     static void countOfOthers() {
         TraitLines x = told("type A");
-        for (int no : new int[] {-1, 11, 12, 32, 43, HelperCheck.LEAST, HelperCheck.MOST, -2}) {
+        for (int no : new int[] {-1, 11, 12, 32, 43, LEAST, MOST, -2}) {
             due("count(" + no + ")", x.count(no), -1);
             due("count(" + no + ") in no world", new TraitLines().count(no), -1);
         }

@@ -1,5 +1,5 @@
 /** Boundary cases of LINES, RINGS and ORDERS and of promises 22 to 27, sentence by sentence. */
-public final class EdgeLinesTest {
+public final class EdgeLinesTest extends HelperCheck {
     /** Where there is a line of each kind: of itself alone, of more, none by a ring, none by a parent; and a trait. */
     private static final String KINDS = "trait T;type A;type B;type X of A B;type Y of B A;type Z of X Y;type W of Z";
     /** Of all worlds of twelve that are trees this one has the most orders: 11! by 11 7 3 3 3. */
@@ -8,34 +8,6 @@ public final class EdgeLinesTest {
 
     public static void main(String[] args) throws Exception {
         HelperEdges.run(EdgeLinesTest.class, 22, 27);
-    }
-
-    private static void due(String call, long got, long want) {
-        HelperCheck.due(call, got, want);
-    }
-
-    private static TraitLines told(String text) {
-        return HelperCheck.told(text);
-    }
-
-    private static int bits(int... places) {
-        return HelperCheck.bits(places);
-    }
-
-    private static void lineIs(TraitLines x, int type, int... due) {
-        due("line(" + type + ", -1)", x.line(type, -1), due.length);
-        for (int k = 0; k < due.length; k++) {
-            due("line(" + type + ", " + k + ")", x.line(type, k), due[k]);
-        }
-        due("line(" + type + ") beyond", x.line(type, due.length), -2);
-    }
-
-    private static void ringIs(TraitLines x, int type, int... due) {
-        due("ring(" + type + ", -1)", x.ring(type, -1), due.length);
-        for (int k = 0; k < due.length; k++) {
-            due("ring(" + type + ", " + k + ")", x.ring(type, k), due[k]);
-        }
-        due("ring(" + type + ") beyond", x.ring(type, due.length), -2);
     }
 
     private static void firstIs(TraitLines x, int type, int... due) {
@@ -80,7 +52,7 @@ public final class EdgeLinesTest {
     static void goesFromAllRows() {
         TraitLines x = told("type O;type A of O;type B of O;type C of O;type D of O;type E of A B C D");
         lineIs(x, 5, 5, 1, 2, 3, 4, 0);
-        x = told(HelperCheck.LADDER);
+        x = told(LADDER);
         due("join", x.join(11, 8), 2);
         due("join", x.join(11, 4), 3);
         due("join", x.join(11, 0), 4);
@@ -117,6 +89,16 @@ public final class EdgeLinesTest {
         ringIs(x, 7, 0, 2);
     }
 
+    @HelperPromise(value = 0, says = "RING (where MERGING stops): from the head of the first row that is left on")
+    static void firstRowThatIsLeft() {
+        // the row of P is used up: A B | B A are left
+        TraitLines x = told("type P;type A;type B;type X of A B;type Y of B A;type Z of P X Y");
+        ringIs(x, 5, 1, 2);
+        // the rows of P and of X are used up
+        x = told("type P;type X;type A;type B;type V of A B;type W of B A;type Z of P X W V");
+        ringIs(x, 6, 3, 2);
+    }
+
     @HelperPromise(value = 0, says = "till one comes that was there: the RING is from that one on")
     static void ringFromThatOneOn() {
         // rows left: A | B A | C D B | D C: from A to B, C, D, then C again
@@ -130,7 +112,7 @@ public final class EdgeLinesTest {
 
     @HelperPromise(value = 0, says = "Over a TYPE stand it, its PARENTS, theirs, and so on.")
     static void whatStandsOver() {
-        TraitLines x = told(HelperCheck.LADDER);
+        TraitLines x = told(LADDER);
         for (int type = 0; type < 12; type++) {
             due("over(" + type + ")", x.over(type), (2 << type) - 1);
         }
@@ -157,7 +139,7 @@ public final class EdgeLinesTest {
 
     @HelperPromise(value = 22, says = "The k-th TYPE of the LINE of a TYPE (0 the first, itself)")
     static void placesOfLines() {
-        TraitLines x = told(HelperCheck.LADDER);
+        TraitLines x = told(LADDER);
         for (int type = 0; type < 12; type++) {
             due("itself", x.line(type, 0), type);
             due("the last", x.line(type, type), 0);
@@ -171,32 +153,32 @@ public final class EdgeLinesTest {
         due("three", x.line(3, -1), 3);
         due("none by a ring", x.line(5, -1), 0);
         due("none by a parent", x.line(6, -1), 0);
-        due("twelve", told(HelperCheck.LADDER).line(11, -1), 12);
+        due("twelve", told(LADDER).line(11, -1), 12);
     }
 
     @HelperPromise(value = 22, says = "-2: there are not so many")
     static void lineIsNotSoLong() {
         TraitLines x = told(KINDS);
-        for (int k : new int[] {0, 1, 2, 3, 12, 13, 32, HelperCheck.MOST}) {
+        for (int k : new int[] {0, 1, 2, 3, 12, 13, 32, MOST}) {
             due("of three, k " + k, x.line(3, k), k == 0 ? 3 : k < 3 ? k : -2);
             due("of none, k " + k, x.line(5, k), -2);
             due("of none, k " + k, x.line(6, k), -2);
         }
-        x = told(HelperCheck.LADDER);
+        x = told(LADDER);
         due("the 13th of twelve", x.line(11, 12), -2);
-        due("far beyond", x.line(11, HelperCheck.MOST), -2);
+        due("far beyond", x.line(11, MOST), -2);
     }
 
     @HelperPromise(value = 22, says = "NONE without that TYPE, for k below NONE.")
     static void lineWithoutTheType() {
         TraitLines x = told(KINDS);
-        for (int no : HelperCheck.noUnits(7)) {
+        for (int no : noUnits(7)) {
             due("type " + no, x.line(no, -1), -1);
             due("type " + no, x.line(no, 0), -1);
         }
         due("a trait", x.line(0, -1), -1);
         due("a trait", x.line(0, 0), -1);
-        for (int k : new int[] {-2, -3, -32, HelperCheck.LEAST}) {
+        for (int k : new int[] {-2, -3, -32, LEAST}) {
             due("k " + k, x.line(3, k), -1);
             due("of none, k " + k, x.line(5, k), -1);
         }
@@ -212,7 +194,7 @@ public final class EdgeLinesTest {
         due("the first", x.ring(5, 0), 1);
         due("the second", x.ring(5, 1), 2);
         // the two of a ladder that are far apart
-        x = told(HelperCheck.LADDER);
+        x = told(LADDER);
         due("join", x.join(10, 0), 2);
         due("turn", x.turn(10), 2);
         ringIs(x, 10, 0, 9);
@@ -236,10 +218,10 @@ public final class EdgeLinesTest {
     @HelperPromise(value = 23, says = "-2: there are not so many")
     static void ringIsNotSoLong() {
         TraitLines x = told(KINDS);
-        for (int k : new int[] {2, 3, 12, 32, HelperCheck.MOST}) {
+        for (int k : new int[] {2, 3, 12, 32, MOST}) {
             due("of two, k " + k, x.ring(5, k), -2);
         }
-        for (int k : new int[] {0, 1, 12, HelperCheck.MOST}) {
+        for (int k : new int[] {0, 1, 12, MOST}) {
             due("of a type with a line, k " + k, x.ring(3, k), -2);
             due("of one whose parent has none, k " + k, x.ring(6, k), -2);
         }
@@ -248,13 +230,13 @@ public final class EdgeLinesTest {
     @HelperPromise(value = 23, says = "NONE without that TYPE, for k below NONE.")
     static void ringWithoutTheType() {
         TraitLines x = told(KINDS);
-        for (int no : HelperCheck.noUnits(7)) {
+        for (int no : noUnits(7)) {
             due("type " + no, x.ring(no, -1), -1);
             due("type " + no, x.ring(no, 0), -1);
         }
         due("a trait", x.ring(0, -1), -1);
         due("a trait", x.ring(0, 0), -1);
-        for (int k : new int[] {-2, -3, -32, HelperCheck.LEAST}) {
+        for (int k : new int[] {-2, -3, -32, LEAST}) {
             due("k " + k, x.ring(5, k), -1);
             due("of a type with a line, k " + k, x.ring(3, k), -1);
         }
@@ -269,7 +251,7 @@ public final class EdgeLinesTest {
         due("itself alone", x.over(1), bits(1));
         due("without a line", x.over(5), bits(1, 2, 3, 4, 5));
         due("under one without a line", x.over(6), bits(1, 2, 3, 4, 5, 6));
-        due("all of twelve", told(HelperCheck.LADDER).over(11), 4095);
+        due("all of twelve", told(LADDER).over(11), 4095);
         x = told("trait S;trait T;type A uses S T");
         due("traits are none", x.over(2), bits(2));
     }
@@ -277,7 +259,7 @@ public final class EdgeLinesTest {
     @HelperPromise(value = 24, says = "NONE without it.")
     static void overWithoutIt() {
         TraitLines x = told(KINDS);
-        for (int no : HelperCheck.noUnits(7)) {
+        for (int no : noUnits(7)) {
             due("over(" + no + ")", x.over(no), -1);
         }
         due("a trait", x.over(0), -1);
@@ -293,7 +275,7 @@ public final class EdgeLinesTest {
         due("one", x.orders(3), 1);
         due("none", x.orders(5), 0);
         due("none under it", x.orders(6), 0);
-        due("one of twelve", told(HelperCheck.LADDER).orders(11), 1);
+        due("one of twelve", told(LADDER).orders(11), 1);
         due("the most", told(MOST_ORDERS).orders(11), 19200);
         // a type without a line may have orders: merging keeps the lines of the parents, too
         x = told("type A;type B;type X of A;type Y of B;type P of X Y;type V of B A;type Z of P V");
@@ -305,7 +287,7 @@ public final class EdgeLinesTest {
     @HelperPromise(value = 25, says = "NONE without it.")
     static void ordersWithoutIt() {
         TraitLines x = told(KINDS);
-        for (int no : HelperCheck.noUnits(7)) {
+        for (int no : noUnits(7)) {
             due("orders(" + no + ")", x.orders(no), -1);
         }
         due("a trait", x.orders(0), -1);
@@ -325,17 +307,17 @@ public final class EdgeLinesTest {
         firstIs(x, 4, 4, 2, 1, 3, 0);
         due("turn", x.turn(4), 2);
         firstIs(x, 4, 4, 3, 0, 2, 1);
-        firstIs(told(HelperCheck.LADDER), 11, 11, 10, 9, 8, 7, 6, 5, 4, 3, 2, 1, 0);
+        firstIs(told(LADDER), 11, 11, 10, 9, 8, 7, 6, 5, 4, 3, 2, 1, 0);
     }
 
     @HelperPromise(value = 26, says = "NONE without these.")
     static void firstWithoutThese() {
         TraitLines x = told(KINDS);
-        for (int no : HelperCheck.noUnits(7)) {
+        for (int no : noUnits(7)) {
             due("type " + no, x.first(no, 0), -1);
         }
         due("a trait", x.first(0, 0), -1);
-        for (int no : HelperCheck.noPlaces(3)) {
+        for (int no : noPlaces(3)) {
             due("place " + no, x.first(3, no), -1);
         }
         for (int k = -1; k < 6; k++) {
@@ -355,11 +337,17 @@ public final class EdgeLinesTest {
         due("J from the third on: C and K stand behind it", x.place(11, 9), bits(2, 3, 4, 5, 6, 7, 8, 9));
         due("K behind J", x.place(11, 10), bits(3, 4, 5, 6, 7, 8, 9, 10, 11));
         due("A behind L I F D", x.place(11, 0), bits(4, 5, 6, 7, 8, 9, 10, 11));
-        x = told(HelperCheck.LADDER);
+        x = told(LADDER);
         for (int other = 0; other < 12; other++) {
             due("place(11, " + other + ")", x.place(11, other), 1 << 11 - other);
         }
         due("alone", x.place(0, 0), 1);
+        // B ahead of A by P, A ahead of C by Q: so B ahead of C
+        x = told("type A;type B;type C;type P of B A;type Q of A C;type Z of P Q");
+        int[] due = {bits(4), bits(2, 3), bits(5), bits(1), bits(2, 3), bits(0)};
+        for (int other = 0; other < 6; other++) {
+            due("place(5, " + other + ")", x.place(5, other), due[other]);
+        }
     }
 
     @HelperPromise(value = 27, says = "0: there are none")
@@ -375,7 +363,7 @@ public final class EdgeLinesTest {
     @HelperPromise(value = 27, says = "NONE without these, if it does not stand over it.")
     static void placeWithoutThese() {
         TraitLines x = told(KINDS);
-        for (int no : HelperCheck.noUnits(7)) {
+        for (int no : noUnits(7)) {
             due("type " + no, x.place(no, 1), -1);
             due("other " + no, x.place(3, no), -1);
             due("other " + no + ", no orders", x.place(5, no), -1);

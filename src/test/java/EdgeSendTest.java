@@ -1,6 +1,5 @@
 /** Boundary cases of SEND, CHAIN and LACK and of promises 28 to 34, sentence by sentence. */
-public final class EdgeSendTest {
-    private static final int NO_ANSWER = HelperCheck.NO_ANSWER;
+public final class EdgeSendTest extends HelperCheck {
     private static final long NAN = Double.doubleToLongBits(Double.NaN);
     /** The type W has no line; the trait T tells what no type uses. */
     private static final String KINDS = "trait T:a=1;type A:a=1 b? c=z;type B of A:b=2;type W of A B:a=1";
@@ -9,25 +8,6 @@ public final class EdgeSendTest {
 
     public static void main(String[] args) throws Exception {
         HelperEdges.run(EdgeSendTest.class, 28, 34);
-    }
-
-    private static void due(String call, long got, long want) {
-        HelperCheck.due(call, got, want);
-    }
-
-    private static TraitLines told(String text) {
-        return HelperCheck.told(text);
-    }
-
-    private static int bits(int... places) {
-        return HelperCheck.bits(places);
-    }
-
-    /** How it ends, value, calls, depth, first type, depth of the end. */
-    private static void sendIs(TraitLines x, int type, char member, int... due) {
-        for (int what = 0; what < 6; what++) {
-            due("send(" + type + ", " + member + ", " + what + ")", x.send(type, member - 'a', what), due[what]);
-        }
     }
 
     /** Members a, b, .. of one type, each calling the next, so many that the last is of that depth. */
@@ -54,7 +34,7 @@ public final class EdgeSendTest {
         sendIs(x, 5, 'a', 0, 2, 1, 0, 5, -1);
         sendIs(x, 6, 'a', 0, 2, 1, 0, 5, -1);
         sendIs(x, 6, 'b', 0, 1, 1, 0, 6, -1);
-        x = told(HelperCheck.LADDER);
+        x = told(LADDER);
         due("give", x.give(0, 25, 999), 0);
         sendIs(x, 11, 'z', 0, 999, 1, 0, 0, -1);
     }
@@ -191,7 +171,7 @@ public final class EdgeSendTest {
         due("the first of the line", x.chain(6, 0, 0), 6);
         due("its own trait's", x.chain(6, 0, 1), 2);
         due("none of a conflict", x.chain(4, 0, -1), 1);
-        x = told(HelperCheck.LADDER);
+        x = told(LADDER);
         for (int type = 3; type < 12; type++) {
             due("give", x.give(type, 25, type), 0);
         }
@@ -267,15 +247,15 @@ public final class EdgeSendTest {
     @HelperPromise(value = 28, says = "Integer.MIN_VALUE without these.")
     static void sendWithoutThese() {
         TraitLines x = told(KINDS);
-        for (int no : HelperCheck.noUnits(4)) {
+        for (int no : noUnits(4)) {
             due("type " + no, x.send(no, 0, 0), NO_ANSWER);
         }
         due("a trait", x.send(0, 0, 0), NO_ANSWER);
-        for (int no : HelperCheck.NO_LETTERS) {
+        for (int no : NO_LETTERS) {
             due("letter " + no, x.send(1, no, 0), NO_ANSWER);
             due("letter " + no + ", no line", x.send(3, no, 0), NO_ANSWER);
         }
-        for (int no : new int[] {-1, 6, 7, 32, HelperCheck.LEAST, HelperCheck.MOST}) {
+        for (int no : new int[] {-1, 6, 7, 32, LEAST, MOST}) {
             due("what " + no, x.send(1, 0, no), NO_ANSWER);
             due("what " + no + ", no line", x.send(3, 0, no), NO_ANSWER);
         }
@@ -288,7 +268,7 @@ public final class EdgeSendTest {
 
     @HelperPromise(value = 29, says = "The k-th TYPE of the CHAIN of a MEMBER in a TYPE; k NONE: how many")
     static void placesOfChains() {
-        TraitLines x = told(HelperCheck.LADDER);
+        TraitLines x = told(LADDER);
         due("none", x.chain(11, 0, -1), 0);
         due("give", x.give(0, 0, 1), 0);
         due("give", x.give(11, 0, 1), 0);
@@ -302,7 +282,7 @@ public final class EdgeSendTest {
     @HelperPromise(value = 29, says = "-2: there are not so many")
     static void chainIsNotSoLong() {
         TraitLines x = told(KINDS);
-        for (int k : new int[] {1, 2, 12, 32, HelperCheck.MOST}) {
+        for (int k : new int[] {1, 2, 12, 32, MOST}) {
             due("of one, k " + k, x.chain(1, 0, k), -2);
             due("of none, k " + k, x.chain(1, 1, k), -2);
         }
@@ -313,19 +293,19 @@ public final class EdgeSendTest {
     @HelperPromise(value = 29, says = "NONE without these, without a LINE, for k below NONE.")
     static void chainWithoutThese() {
         TraitLines x = told(KINDS);
-        for (int no : HelperCheck.noUnits(4)) {
+        for (int no : noUnits(4)) {
             due("type " + no, x.chain(no, 0, -1), -1);
             due("type " + no, x.chain(no, 0, 0), -1);
         }
         due("a trait", x.chain(0, 0, -1), -1);
-        for (int no : HelperCheck.NO_LETTERS) {
+        for (int no : NO_LETTERS) {
             due("letter " + no, x.chain(1, no, -1), -1);
             due("letter " + no, x.chain(1, no, 0), -1);
         }
-        for (int k : new int[] {-1, 0, 1, HelperCheck.MOST}) {
+        for (int k : new int[] {-1, 0, 1, MOST}) {
             due("no line, k " + k, x.chain(3, 0, k), -1);
         }
-        for (int k : new int[] {-2, -3, HelperCheck.LEAST}) {
+        for (int k : new int[] {-2, -3, LEAST}) {
             due("k " + k, x.chain(1, 0, k), -1);
             due("of none, k " + k, x.chain(1, 25, k), -1);
         }
@@ -341,7 +321,7 @@ public final class EdgeSendTest {
         due("none", x.lacks(2), 0);
         due("no line", x.lacks(3), -1);
         due("a trait", x.lacks(0), -1);
-        for (int no : HelperCheck.noUnits(4)) {
+        for (int no : noUnits(4)) {
             due("type " + no, x.lacks(no), -1);
         }
         due("in no world", new TraitLines().lacks(0), -1);
@@ -355,7 +335,7 @@ public final class EdgeSendTest {
         due("a and b", x.answers(2), bits(0, 1));
         due("no line: none ends well", x.answers(3), 0);
         due("a trait", x.answers(0), -1);
-        for (int no : HelperCheck.noUnits(4)) {
+        for (int no : noUnits(4)) {
             due("type " + no, x.answers(no), -1);
         }
         due("in no world", new TraitLines().answers(0), -1);
@@ -395,7 +375,7 @@ public final class EdgeSendTest {
     @HelperPromise(value = 32, says = "NONE without these.")
     static void alikeWithoutThese() {
         TraitLines x = told(KINDS);
-        for (int no : HelperCheck.noUnits(4)) {
+        for (int no : noUnits(4)) {
             due("alike(" + no + ", 1)", x.alike(no, 1), -1);
             due("alike(1, " + no + ")", x.alike(1, no), -1);
             due("alike(" + no + ", " + no + ")", x.alike(no, no), -1);
@@ -421,7 +401,7 @@ public final class EdgeSendTest {
         x = told(deep(16) + ";type D of C:z=1");
         due("q is of depth 16", x.origins(2, 0), bits(0, 1));
         due("q is of depth 15", x.origins(2, 1), bits(0, 1, 2));
-        x = told(HelperCheck.LADDER);
+        x = told(LADDER);
         due("give", x.give(11, 0, 1), 0);
         due("the last of twelve", x.origins(11, 0), bits(11));
         due("a conflict is none", told("trait S:a=1;trait T:a=1;type A uses S T").origins(2, 0), 0);
@@ -430,11 +410,11 @@ public final class EdgeSendTest {
     @HelperPromise(value = 33, says = "NONE without these.")
     static void originsWithoutThese() {
         TraitLines x = told(KINDS);
-        for (int no : HelperCheck.noUnits(4)) {
+        for (int no : noUnits(4)) {
             due("type " + no, x.origins(no, 0), -1);
         }
         due("a trait", x.origins(0, 0), -1);
-        for (int no : HelperCheck.NO_LETTERS) {
+        for (int no : NO_LETTERS) {
             due("letter " + no, x.origins(1, no), -1);
         }
         due("in no world", new TraitLines().origins(0, 0), -1);
@@ -454,6 +434,10 @@ public final class EdgeSendTest {
         due("8 by 7", told("type A:a=1b=1c=1d=1e=1f=1g=a").mean(0), Double.doubleToLongBits(8.0 / 7.0));
         due("9 by 7", told("type A:a=1b=1c=1d=1e=1f=a g=a").mean(0), Double.doubleToLongBits(9.0 / 7.0));
         due("10 by 7", told("type A:a=1b=1c=1d=1e=a f=a g=a").mean(0), Double.doubleToLongBits(10.0 / 7.0));
+        due("12 by 7", told("type A:a=1b=1c=a d=a e=a f=a g=a").mean(0), Double.doubleToLongBits(12.0 / 7.0));
+        due("1 by 1", told("type A:a=1").mean(0), Double.doubleToLongBits(1.0));
+        due("3 by 1", told("type A:a=1;type B of A:a=super+super").mean(1), Double.doubleToLongBits(3.0));
+        due("what the next type tells is none of it", told("type A:b=1;type B:a=b+b").mean(0), Double.doubleToLongBits(1.0));
         due("27 by 26", told("trait S:a=1b=1c=1d=1e=1f=1g=1h=1;trait T:i=1j=1k=1l=1m=1n=1o=1p=1;trait U:q=1r=1s=1t=1u=1v=1w=1x=1;"
             + "type A uses S T U:y=1z=a").mean(3), Double.doubleToLongBits(27.0 / 26.0));
     }
@@ -465,7 +449,7 @@ public final class EdgeSendTest {
         due("no line", x.mean(3), NAN);
         due("no members", x.mean(4), NAN);
         due("a trait", x.mean(0), NAN);
-        for (int no : HelperCheck.noUnits(5)) {
+        for (int no : noUnits(5)) {
             due("mean(" + no + ")", x.mean(no), NAN);
         }
         due("in no world", new TraitLines().mean(0), NAN);

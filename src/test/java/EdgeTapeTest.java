@@ -1,14 +1,10 @@
 /** Boundary cases of promises 1 to 4, sentence by sentence: a new object, feed, end, tell. */
-public final class EdgeTapeTest {
+public final class EdgeTapeTest extends HelperCheck {
     private static final int BLANKS = 0x20202020;
     private static final int TYPE = 0x74797065;
 
     public static void main(String[] args) throws Exception {
         HelperEdges.run(EdgeTapeTest.class, 1, 4);
-    }
-
-    private static void due(String call, long got, long want) {
-        HelperCheck.due(call, got, want);
     }
 
     private static int feedBlanks(TraitLines x) {
@@ -40,7 +36,7 @@ public final class EdgeTapeTest {
 
     @HelperPromise(value = 1, says = "`TraitLines()`")
     static void objectsAreApart() {
-        TraitLines x = HelperCheck.told("type A");
+        TraitLines x = told("type A");
         TraitLines y = new TraitLines();
         due("feed", feedBlanks(x), 20);
         due("keep", x.keep(0), 1);
@@ -112,7 +108,7 @@ public final class EdgeTapeTest {
         TraitLines x = new TraitLines();
         due("end(1) of none", x.end(1), -1);
         due("feed", x.feed(TYPE, 0x20412020, BLANKS, BLANKS, BLANKS), 20);
-        for (int n : new int[] {21, 22, 40, 400, 401, HelperCheck.MOST, -1, -2, -20, HelperCheck.LEAST}) {
+        for (int n : new int[] {21, 22, 40, 400, 401, MOST, -1, -2, -20, LEAST}) {
             due("end(" + n + ")", x.end(n), -1);
             due("bytes", x.count(8), 20);
         }
@@ -126,10 +122,10 @@ public final class EdgeTapeTest {
 
     @HelperPromise(value = 4, says = "The TAPE, which is empty then, tells a WORLD in place of the one there was")
     static void inPlaceOfTheOldWorld() {
-        TraitLines x = HelperCheck.told("trait T:a=1;type A uses T(a>b -c):c=super+1 d?;type B of A:z=1");
+        TraitLines x = told("trait T:a=1;type A uses T(a>b -c):c=super+1 d?;type B of A:z=1");
         due("bytes", x.count(8), 0);
         due("end(1)", x.end(1), -1);
-        due("tell", HelperCheck.tellText(x, "trait B;type A uses B"), 2);
+        due("tell", tellText(x, "trait B;type A uses B"), 2);
         due("bytes", x.count(8), 0);
         due("units", x.count(0), 2);
         due("T is gone", x.find(19), -1);
@@ -145,12 +141,36 @@ public final class EdgeTapeTest {
         due("nothing is there", x.unit(0, 0), -1);
     }
 
+    @HelperPromise(value = 4, says = "tells a WORLD in place of the one there was")
+    static void nothingOfOlderWorlds() {
+        TraitLines x = new TraitLines();
+        String rich = "trait S;trait T;type A;type B;type C of A B uses S(-a b>c -d -e -f -g)T(-a):a=1+2b=1c?d?e?f?g?h?";
+        due("tell", tellText(x, rich), 5);
+        due("tell", tellText(x, rich), 5);
+        due("tell", tellText(x, "trait S;trait T;type A;type B;type C uses S T"), 5);
+        due("no parents", x.unit(4, 2), 0);
+        due("two traits", x.unit(4, 3), 2);
+        due("no own members", x.unit(4, 4), 0);
+        for (int member = 0; member < 26; member++) {
+            due("no change in S", x.becomes(4, 0, member), member);
+            due("no change in T", x.becomes(4, 1, member), member);
+        }
+        due("a first change", x.change(4, 0, 25, -1), 1);
+        due("a first change", x.change(4, 1, 25, -1), 1);
+        due("a first parent", x.join(4, 3), 1);
+        for (int member = 0; member < 8; member++) {
+            due("room for eight", x.give(4, member, 7), 0);
+        }
+        due("a 9th", x.give(4, 8, 7), -3);
+        due("take", x.take(4, 0), 7);
+    }
+
     @HelperPromise(value = 4, says = "(nothing can be UNDONE; SHELVES stay)")
     static void nothingToUndoShelvesStay() {
-        TraitLines x = HelperCheck.told("type A:a=1");
+        TraitLines x = told("type A:a=1");
         due("keep", x.keep(1), 1);
         due("give", x.give(0, 0, 2), 1);
-        due("tell", HelperCheck.tellText(x, "type B:a=7;type C"), 2);
+        due("tell", tellText(x, "type B:a=7;type C"), 2);
         due("acts", x.count(7), 0);
         due("undo", x.undo(), -1);
         due("the new world stays", x.send(0, 0, 1), 7);
@@ -163,25 +183,25 @@ public final class EdgeTapeTest {
     @HelperPromise(value = 4, says = "how many UNITS")
     static void howManyUnits() {
         due("none", new TraitLines().tell(), 0);
-        due("one", HelperCheck.tellText(new TraitLines(), "trait Z"), 1);
-        due("twelve", HelperCheck.tellText(new TraitLines(), HelperCheck.LADDER), 12);
+        due("one", tellText(new TraitLines(), "trait Z"), 1);
+        due("twelve", tellText(new TraitLines(), LADDER), 12);
     }
 
     @HelperPromise(value = 4, says = "-2 - its FAULT, and but for the TAPE nothing happens")
     static void aFaultChangesTheTapeAlone() {
-        TraitLines x = HelperCheck.told("trait T:a=1;type A uses T(a>b):c=super+1 d?");
+        TraitLines x = told("trait T:a=1;type A uses T(a>b):c=super+1 d?");
         due("keep", x.keep(0), 2);
         due("give", x.give(1, 2, 5), 1);
         due("need", x.need(1, 4), 0);
-        String before = HelperCheck.picture(x);
-        due("the least", HelperCheck.tellText(x, "!"), -3);
+        String before = picture(x);
+        due("the least", tellText(x, "!"), -3);
         due("bytes", x.count(8), 0);
-        due("late", HelperCheck.tellText(x, "type A:a=9;trait T:a=9;type C of A uses T(-a):c=9;;"), -2 - (8 * 50 + 1));
+        due("late", tellText(x, "type A:a=9;trait T:a=9;type C of A uses T(-a):c=9;;"), -2 - (8 * 50 + 1));
         due("bytes", x.count(8), 0);
-        due("of a name", HelperCheck.tellText(x, "trait T;type T"), -2 - (8 * 13 + 2));
-        due("of one too many", HelperCheck.tellText(x, "type A:a=1+1+1+1+1"), -2 - (8 * 17 + 3));
-        due("the greatest", HelperCheck.tellText(x, " ".repeat(396) + "type"), -3203);
-        HelperCheck.unchanged(x, before);
+        due("of a name", tellText(x, "trait T;type T"), -2 - (8 * 13 + 2));
+        due("of one too many", tellText(x, "type A:a=1+1+1+1+1"), -2 - (8 * 17 + 3));
+        due("the greatest", tellText(x, " ".repeat(396) + "type"), -3203);
+        unchanged(x, before);
         due("undo", x.undo(), 1);
         due("undo", x.undo(), 0);
         due("as it was", x.body(1, 2, 0), 1000);

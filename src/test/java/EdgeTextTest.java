@@ -1,5 +1,5 @@
 /** Boundary cases of the terms that tell what a world and its text are, and of faults, sentence by sentence. */
-public final class EdgeTextTest {
+public final class EdgeTextTest extends HelperCheck {
     private static final String TWELVE = "type A;type B;type C;type D;type E;type F;type G;type H;type I;type J;type K;type L";
     private static final String FIVE_TYPES = "type A;type B;type C;type D;type E;type F of ";
     private static final String FIVE_TRAITS = "trait A;trait B;trait C;trait D;trait E;type F uses ";
@@ -8,22 +8,6 @@ public final class EdgeTextTest {
 
     public static void main(String[] args) throws Exception {
         HelperEdges.run(EdgeTextTest.class, 0, 0);
-    }
-
-    private static void due(String call, long got, long want) {
-        HelperCheck.due(call, got, want);
-    }
-
-    private static TraitLines told(String text) {
-        return HelperCheck.told(text);
-    }
-
-    private static void fault(String marked, int why) {
-        HelperCheck.fault(marked, why);
-    }
-
-    private static void good(String text, int units) {
-        HelperCheck.good(text, units);
     }
 
     // ---- an object, a WORLD
@@ -119,7 +103,7 @@ public final class EdgeTextTest {
     @HelperPromise(value = 0, says = "A UNIT has up to 8 own MEMBERS, each a letter a to z")
     static void upToEightMembers() {
         due("none", told("type A").unit(0, 4), 0);
-        due("a and z", told("trait A:z?a=z").unit(0, 4), HelperCheck.bits(0, 25));
+        due("a and z", told("trait A:z?a=z").unit(0, 4), bits(0, 25));
         TraitLines x = told("type A:a?b?c?d?e?f?g=1 h=2;trait B:s=1 t=1 u=1 v=1 w=1 x=1 y=1 z?");
         due("eight of a type", x.unit(0, 4), 255);
         due("eight of a trait", x.unit(1, 4), 255 << 18);
@@ -264,6 +248,9 @@ public final class EdgeTextTest {
         fault("type A;type B of A^B", 2);
         fault("type ^ab", 1);
         fault("type A:^ab?", 1);
+        fault("type A:^zz?", 1);
+        fault("type A:^za?", 1);
+        fault("type A:^az?", 1);
         fault("type A:a^B?", 1);
         fault("type A:a=^ab", 1);
         fault("type A:a=1+^supe", 1);
@@ -309,13 +296,13 @@ public final class EdgeTextTest {
 
     @HelperPromise(value = 0, says = "of the first place along it that is wrong (0 the first byte), 8 times the place and:")
     static void firstPlace() {
-        due("place 0", HelperCheck.tellText(new TraitLines(), "x"), -2 - 1);
-        due("place 1", HelperCheck.tellText(new TraitLines(), " x"), -2 - 9);
-        due("place 5", HelperCheck.tellText(new TraitLines(), "type a"), -2 - 41);
-        due("place 9 at the earliest of many", HelperCheck.tellText(new TraitLines(), "type A:a=1000+1000 x;type A;;"), -2 - 74);
+        due("place 0", tellText(new TraitLines(), "x"), -2 - 1);
+        due("place 1", tellText(new TraitLines(), " x"), -2 - 9);
+        due("place 5", tellText(new TraitLines(), "type a"), -2 - 41);
+        due("place 9 at the earliest of many", tellText(new TraitLines(), "type A:a=1000+1000 x;type A;;"), -2 - 74);
         String late = "type A" + " ".repeat(393);
-        due("place 399", HelperCheck.tellText(new TraitLines(), late + "x"), -2 - (8 * 399 + 1));
-        due("place 400", HelperCheck.tellText(new TraitLines(), late + ";"), -2 - (8 * 400 + 1));
+        due("place 399", tellText(new TraitLines(), late + "x"), -2 - (8 * 399 + 1));
+        due("place 400", tellText(new TraitLines(), late + ";"), -2 - (8 * 400 + 1));
         // 2 and 3 ahead of a 1 that comes later
         fault("type A;type ^A;;", 2);
         fault(FIVE_TYPES + "A B C D ^E x", 3);
@@ -340,6 +327,18 @@ public final class EdgeTextTest {
                 fault("type A:z ^" + sign, 1);
             }
         }
+        // one letter of a WORD otherwise
+        for (String word : new String[] {"type", "trait"}) {
+            for (int k = 0; k < word.length(); k++) {
+                fault("^" + word.substring(0, k) + "x" + word.substring(k + 1) + " A", 1);
+            }
+        }
+        fault("type A;type B ^xf A", 1);
+        fault("type A;type B ^ox A", 1);
+        for (int k = 0; k < 5; k++) {
+            fault("trait A;type B ^" + "uses".substring(0, Math.min(k, 4)) + "x" + "uses".substring(Math.min(k + 1, 4)) + " A", 1);
+            fault("type A:a=^" + "super".substring(0, k) + "x" + "super".substring(k + 1), 1);
+        }
         fault("^super A", 1);
         fault("^of A", 1);
         fault("type ^type", 1);
@@ -356,7 +355,7 @@ public final class EdgeTextTest {
             fault(whole.substring(0, end) + "   ^", 1);
         }
         for (int end : new int[] {0, 7, 14, 21, 26, 33, 41, 45}) {
-            due("no fault at " + end, HelperCheck.tellText(new TraitLines(), whole.substring(0, end)) >= 0 ? 1 : 0, 1);
+            due("no fault at " + end, tellText(new TraitLines(), whole.substring(0, end)) >= 0 ? 1 : 0, 1);
         }
     }
 

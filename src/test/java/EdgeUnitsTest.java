@@ -1,28 +1,9 @@
 /** Boundary cases of FLAT and of promises 16 to 21, sentence by sentence: what is told of units, and what they have. */
-public final class EdgeUnitsTest {
+public final class EdgeUnitsTest extends HelperCheck {
     private static final String WHOLE = "trait Z:a=1 z?;trait A uses Z(-a);type M;type N;type O;type P;type Q of M N O P uses Z A:b=1 c?";
 
     public static void main(String[] args) throws Exception {
         HelperEdges.run(EdgeUnitsTest.class, 16, 21);
-    }
-
-    private static void due(String call, long got, long want) {
-        HelperCheck.due(call, got, want);
-    }
-
-    private static TraitLines told(String text) {
-        return HelperCheck.told(text);
-    }
-
-    private static int bits(int... places) {
-        return HelperCheck.bits(places);
-    }
-
-    /** What flat() answers for 0 to 4. */
-    private static void flatIs(TraitLines x, int unit, char member, int... due) {
-        for (int what = 0; what < 5; what++) {
-            due("flat(" + unit + ", " + member + ", " + what + ")", x.flat(unit, member - 'a', what), due[what]);
-        }
     }
 
     private static void nothingFlat(TraitLines x, int unit, char member) {
@@ -212,11 +193,11 @@ public final class EdgeUnitsTest {
     @HelperPromise(value = 16, says = "NONE without these.")
     static void unitWithoutThese() {
         TraitLines x = told(WHOLE);
-        for (int no : HelperCheck.noUnits(7)) {
+        for (int no : noUnits(7)) {
             due("unit " + no, x.unit(no, 0), -1);
             due("unit " + no, x.unit(no, 6), -1);
         }
-        for (int no : new int[] {-1, 10, 11, 32, HelperCheck.LEAST, HelperCheck.MOST}) {
+        for (int no : new int[] {-1, 10, 11, 32, LEAST, MOST}) {
             due("what " + no, x.unit(0, no), -1);
             due("what " + no, x.unit(6, no), -1);
         }
@@ -231,13 +212,13 @@ public final class EdgeUnitsTest {
         for (int k = 0; k < 4; k++) {
             due("parent " + k, x.parent(6, k), 2 + k);
         }
-        for (int no : HelperCheck.noPlaces(4)) {
+        for (int no : noPlaces(4)) {
             due("place " + no, x.parent(6, no), -1);
         }
-        for (int no : HelperCheck.noPlaces(0)) {
+        for (int no : noPlaces(0)) {
             due("of none, place " + no, x.parent(2, no), -1);
         }
-        for (int no : HelperCheck.noUnits(7)) {
+        for (int no : noUnits(7)) {
             due("type " + no, x.parent(no, 0), -1);
         }
         due("of a trait", x.parent(1, 0), -1);
@@ -254,13 +235,13 @@ public final class EdgeUnitsTest {
             due("trait " + k, x.used(4, k), due[k]);
         }
         due("of a trait", x.used(5, 0), 1);
-        for (int no : HelperCheck.noPlaces(4)) {
+        for (int no : noPlaces(4)) {
             due("place " + no, x.used(4, no), -1);
         }
-        for (int no : HelperCheck.noPlaces(0)) {
+        for (int no : noPlaces(0)) {
             due("of none, place " + no, x.used(6, no), -1);
         }
-        for (int no : HelperCheck.noUnits(7)) {
+        for (int no : noUnits(7)) {
             due("unit " + no, x.used(no, 0), -1);
         }
         due("in no world", new TraitLines().used(0, 0), -1);
@@ -288,16 +269,16 @@ public final class EdgeUnitsTest {
         due("it has it not", x.becomes(2, 0, 1), 1);
         due("it has none", x.becomes(2, 1, 25), 25);
         due("it has it not, and it is left out", x.becomes(2, 1, 2), -2);
-        for (int no : HelperCheck.noUnits(4)) {
+        for (int no : noUnits(4)) {
             due("unit " + no, x.becomes(no, 0, 0), -1);
         }
-        for (int no : HelperCheck.noPlaces(2)) {
+        for (int no : noPlaces(2)) {
             due("place " + no, x.becomes(2, no, 0), -1);
         }
-        for (int no : HelperCheck.noPlaces(0)) {
+        for (int no : noPlaces(0)) {
             due("of none, place " + no, x.becomes(3, no, 0), -1);
         }
-        for (int no : HelperCheck.NO_LETTERS) {
+        for (int no : NO_LETTERS) {
             due("letter " + no, x.becomes(2, 0, no), -1);
             due("letter " + no, x.becomes(2, 1, no), -1);
         }
@@ -325,7 +306,7 @@ public final class EdgeUnitsTest {
         for (int member = 0; member < 5; member++) {
             int terms = member == 4 ? 0 : member + 1;
             due("terms of " + member, x.body(0, member, -1), terms);
-            for (int k : new int[] {terms, terms + 1, 4, 5, 26, 32, HelperCheck.MOST}) {
+            for (int k : new int[] {terms, terms + 1, 4, 5, 26, 32, MOST}) {
                 due("term " + k + " of " + member, x.body(0, member, k), -2);
             }
         }
@@ -341,19 +322,19 @@ public final class EdgeUnitsTest {
     @HelperPromise(value = 20, says = "NONE without that MEMBER, for k below NONE.")
     static void bodyWithoutTheMember() {
         TraitLines x = told("trait T:a=1 b?;type A uses T:c=1 d?");
-        for (int k : new int[] {-2, -3, -32, HelperCheck.LEAST}) {
+        for (int k : new int[] {-2, -3, -32, LEAST}) {
             due("of a body, k " + k, x.body(1, 2, k), -1);
             due("of what is required, k " + k, x.body(1, 3, k), -1);
         }
-        for (int no : HelperCheck.noUnits(2)) {
+        for (int no : noUnits(2)) {
             due("unit " + no, x.body(no, 2, -1), -1);
             due("unit " + no, x.body(no, 2, 0), -1);
         }
-        for (int no : HelperCheck.NO_LETTERS) {
+        for (int no : NO_LETTERS) {
             due("letter " + no, x.body(1, no, -1), -1);
             due("letter " + no, x.body(1, no, 0), -1);
         }
-        for (int k : new int[] {-1, 0, 1, HelperCheck.MOST}) {
+        for (int k : new int[] {-1, 0, 1, MOST}) {
             due("given by a trait alone, k " + k, x.body(1, 0, k), -1);
             due("required by a trait alone, k " + k, x.body(1, 1, k), -1);
             due("nowhere, k " + k, x.body(1, 25, k), -1);
@@ -405,13 +386,13 @@ public final class EdgeUnitsTest {
     @HelperPromise(value = 21, says = "NONE without these.")
     static void flatWithoutThese() {
         TraitLines x = told("trait S:a=1 b?;trait T:a=1;type A uses S T");
-        for (int no : HelperCheck.noUnits(3)) {
+        for (int no : noUnits(3)) {
             due("unit " + no, x.flat(no, 0, 0), -1);
         }
-        for (int no : HelperCheck.NO_LETTERS) {
+        for (int no : NO_LETTERS) {
             due("letter " + no, x.flat(2, no, 0), -1);
         }
-        for (int no : new int[] {-1, 5, 6, 32, HelperCheck.LEAST, HelperCheck.MOST, -2}) {
+        for (int no : new int[] {-1, 5, 6, 32, LEAST, MOST, -2}) {
             due("of a conflict, what " + no, x.flat(2, 0, no), -1);
             due("of a body, what " + no, x.flat(0, 0, no), -1);
             due("of what is required, what " + no, x.flat(0, 1, no), -1);

@@ -1,5 +1,5 @@
-/** Counts answers that are not as due, feeds texts, and looks at whole worlds. */
-final class HelperCheck {
+/** Counts answers that are not as due, feeds texts, and looks at whole worlds; tests extend it to have all that at hand. */
+class HelperCheck {
     static final int NONE = -1;
     static final int NO_ANSWER = Integer.MIN_VALUE;
     static final int LEAST = Integer.MIN_VALUE;
@@ -9,9 +9,6 @@ final class HelperCheck {
     private static int wrong = 0;
     private static int made = 0;
     private static String about = "";
-
-    private HelperCheck() {
-    }
 
     /** What is printed ahead of each answer that is not as due. */
     static void about(String what) {
@@ -109,6 +106,38 @@ final class HelperCheck {
     /** Numbers that are no place in a row of so many. */
     static int[] noPlaces(int size) {
         return new int[] {-1, size, size + 1, 12, 26, 32, LEAST, MOST, -2, -26};
+    }
+
+    /** What flat() answers for 0 to 4. */
+    static void flatIs(TraitLines x, int unit, char member, int... due) {
+        for (int what = 0; what < 5; what++) {
+            due("flat(" + unit + ", " + member + ", " + what + ")", x.flat(unit, member - 'a', what), due[what]);
+        }
+    }
+
+    static void lineIs(TraitLines x, int type, int... due) {
+        due("line(" + type + ", -1)", x.line(type, -1), due.length);
+        for (int k = 0; k < due.length; k++) {
+            due("line(" + type + ", " + k + ")", x.line(type, k), due[k]);
+        }
+        due("line(" + type + ") beyond", x.line(type, due.length), -2);
+        due("line(" + type + ", -2)", x.line(type, -2), -1);
+    }
+
+    static void ringIs(TraitLines x, int type, int... due) {
+        due("ring(" + type + ", -1)", x.ring(type, -1), due.length);
+        for (int k = 0; k < due.length; k++) {
+            due("ring(" + type + ", " + k + ")", x.ring(type, k), due[k]);
+        }
+        due("ring(" + type + ") beyond", x.ring(type, due.length), -2);
+        due("ring(" + type + ", -2)", x.ring(type, -2), -1);
+    }
+
+    /** What send() answers for 0 to 5: how it ends, value, calls, depth, first type, depth of the end. */
+    static void sendIs(TraitLines x, int type, char member, int... due) {
+        for (int what = 0; what < 6; what++) {
+            due("send(" + type + ", " + member + ", " + what + ")", x.send(type, member - 'a', what), due[what]);
+        }
     }
 
     /** All that is told, and how many acts, bytes and shelves there are: some 30 calls a unit. */

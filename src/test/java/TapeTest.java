@@ -1,5 +1,5 @@
 /** Promises 1 to 4: a new object, feed, end, tell with every kind of fault. */
-public final class TapeTest {
+public final class TapeTest extends HelperCheck {
     public static void main(String[] args) {
         newObject();
         tape();
@@ -11,19 +11,7 @@ public final class TapeTest {
         faultsOfMembers();
         faultsOfTerms();
         faultsChangeNothing();
-        HelperCheck.finish("TapeTest");
-    }
-
-    private static void due(String call, long got, long want) {
-        HelperCheck.due(call, got, want);
-    }
-
-    private static void fault(String marked, int why) {
-        HelperCheck.fault(marked, why);
-    }
-
-    private static void good(String text, int units) {
-        HelperCheck.good(text, units);
+        finish("TapeTest");
     }
 
     private static void newObject() {
@@ -245,17 +233,17 @@ public final class TapeTest {
     }
 
     private static void faultsChangeNothing() {
-        TraitLines x = HelperCheck.told("type A:a=1;type B of A");
+        TraitLines x = told("type A:a=1;type B of A");
         due("give", x.give(0, 1, 5), 0);
         due("keep", x.keep(0), 2);
-        due("tell of a fault", HelperCheck.tellText(x, "type C;type D;type E;type"), -2 - (8 * 25 + 1));
+        due("tell of a fault", tellText(x, "type C;type D;type E;type"), -2 - (8 * 25 + 1));
         due("the tape is empty", x.count(8), 0);
         due("units stay", x.count(0), 2);
         due("names stay", x.find(0), 0);
         due("acts stay", x.count(7), 1);
         due("undo", x.undo(), 0);
         due("give", x.give(0, 1, 5), 0);
-        due("tell", HelperCheck.tellText(x, "trait T"), 1);
+        due("tell", tellText(x, "trait T"), 1);
         due("nothing can be undone", x.undo(), -1);
         due("a new world", x.unit(0, 0), 1);
         due("nothing of the old one", x.unit(0, 4), 0);
@@ -265,9 +253,9 @@ public final class TapeTest {
         due("shelves stay", x.back(0), 2);
         due("as it was kept", x.body(0, 1, 0), 5);
         // what two texts leave behind in one place is not mixed
-        HelperCheck.tellText(x, "trait T:a=1 b=2;type A uses T(a>c -b):d=1");
-        HelperCheck.tellText(x, "trait T;type A uses T:e=1");
-        HelperCheck.tellText(x, "trait T:a=1 b=2;type A uses T");
+        tellText(x, "trait T:a=1 b=2;type A uses T(a>c -b):d=1");
+        tellText(x, "trait T;type A uses T:e=1");
+        tellText(x, "trait T:a=1 b=2;type A uses T");
         due("own members", x.unit(1, 4), 0);
         due("a stays", x.becomes(1, 0, 0), 0);
         due("b stays", x.becomes(1, 0, 1), 1);

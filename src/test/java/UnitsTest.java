@@ -1,5 +1,5 @@
 /** Promises 16 to 21, 35 and 36: what is told, FLAT, find, count. */
-public final class UnitsTest {
+public final class UnitsTest extends HelperCheck {
     public static void main(String[] args) {
         told();
         bodies();
@@ -9,19 +9,11 @@ public final class UnitsTest {
         flatOrderOfSources();
         find();
         counts();
-        HelperCheck.finish("UnitsTest");
-    }
-
-    private static void due(String call, long got, long want) {
-        HelperCheck.due(call, got, want);
-    }
-
-    private static int bits(int... places) {
-        return HelperCheck.bits(places);
+        finish("UnitsTest");
     }
 
     private static void told() {
-        TraitLines x = HelperCheck.told("trait Z:a=1 b? z=2;trait Q uses Z(-a b>c);type M:m?;type N of M uses Q Z(z>y):c=1 d?");
+        TraitLines x = told("trait Z:a=1 b? z=2;trait Q uses Z(-a b>c);type M:m?;type N of M uses Q Z(z>y):c=1 d?");
         int[][] due = {
             {1, 25, 0, 0, bits(0, 1, 25), bits(1), bits(0, 1, 25), bits(0, 25), bits(1), 0, -1},
             {1, 16, 0, 1, 0, 0, bits(2, 25), bits(25), bits(2), 0, -1},
@@ -61,7 +53,7 @@ public final class UnitsTest {
     }
 
     private static void bodies() {
-        TraitLines x = HelperCheck.told("type A:a=0+999+super+z b? c=a");
+        TraitLines x = told("type A:a=0+999+super+z b? c=a");
         int[] terms = {0, 999, 1000, 1026, -2};
         for (int k = 0; k < 5; k++) {
             due("body(0, 0, " + k + ")", x.body(0, 0, k), terms[k]);
@@ -81,14 +73,8 @@ public final class UnitsTest {
         due("unit -1", x.body(-1, 0, -1), -1);
     }
 
-    private static void flatIs(TraitLines x, int unit, char member, int... due) {
-        for (int what = 0; what < 5; what++) {
-            due("flat(" + unit + ", " + member + ", " + what + ")", x.flat(unit, member - 'a', what), due[what]);
-        }
-    }
-
     private static void flatOwn() {
-        TraitLines x = HelperCheck.told("trait T:a=1 b=2 c?;trait U uses T(a>d):b? c=3;type A uses U:d?e?");
+        TraitLines x = told("trait T:a=1 b=2 c?;trait U uses T(a>d):b? c=3;type A uses U:d?e?");
         flatIs(x, 1, 'a', -1, -1, -1, -1, -1);
         flatIs(x, 1, 'b', 1, 0, 1, -2, -2);
         flatIs(x, 1, 'c', 1, 1, 2, -2, -2);
@@ -104,7 +90,7 @@ public final class UnitsTest {
     }
 
     private static void flatConflicts() {
-        TraitLines x = HelperCheck.told("trait S:a=1;trait T:a=1;trait U uses S T;type A uses U(a>b):a?b?;type B uses U:a=3;"
+        TraitLines x = told("trait S:a=1;trait T:a=1;trait U uses S T;type A uses U(a>b):a?b?;type B uses U:a=3;"
             + "type C uses S(a>z)T(a>z):z?;trait V:b?;type D uses V U(a>b)");
         flatIs(x, 2, 'a', 3, 0, 0, 1, 0);
         flatIs(x, 3, 'b', 3, 0, 0, 1, 0);
@@ -116,23 +102,23 @@ public final class UnitsTest {
         due("in conflict", x.unit(2, 9), 1);
         due("in conflict", x.unit(5, 9), 1 << 25);
         // two letters of one trait under one letter
-        x = HelperCheck.told("trait T:a=1 b=2;type A uses T(b>a);type B uses T(a>b);type C uses T(a>c b>c)");
+        x = told("trait T:a=1 b=2;type A uses T(b>a);type B uses T(a>b);type C uses T(a>c b>c)");
         flatIs(x, 1, 'a', 3, 0, 0, 0, 1);
         flatIs(x, 2, 'b', 3, 0, 0, 0, 1);
         flatIs(x, 3, 'c', 3, 0, 0, 0, 1);
     }
 
     private static void flatOneSource() {
-        TraitLines x = HelperCheck.told("trait T:a=1;trait U uses T;trait V uses T(a>b);type A uses U V(b>a)T;type B uses U V(b>a):a?");
+        TraitLines x = told("trait T:a=1;trait U uses T;trait V uses T(a>b);type A uses U V(b>a)T;type B uses U V(b>a):a?");
         flatIs(x, 3, 'a', 1, 0, 0, -2, -2);
         flatIs(x, 4, 'a', 1, 0, 0, -2, -2);
         // under another letter it is another one
-        x = HelperCheck.told("trait T:a=1 b=1;trait U uses T(-a);type A uses T(-b)U(b>a)");
+        x = told("trait T:a=1 b=1;trait U uses T(-a);type A uses T(-b)U(b>a)");
         flatIs(x, 2, 'a', 3, 0, 0, 0, 1);
     }
 
     private static void flatOrderOfSources() {
-        TraitLines x = HelperCheck.told("trait P:a=1;trait Q:a=2;trait R:a=3;trait S uses Q R;trait T uses P Q;"
+        TraitLines x = told("trait P:a=1;trait Q:a=2;trait R:a=3;trait S uses Q R;trait T uses P Q;"
             + "type A uses T S;type B uses S T;type C uses Q S;type D uses R S;type E uses P S");
         flatIs(x, 5, 'a', 3, 0, 0, 1, 0);
         flatIs(x, 6, 'a', 3, 1, 0, 2, 0);
@@ -142,20 +128,20 @@ public final class UnitsTest {
     }
 
     private static void find() {
-        TraitLines x = HelperCheck.told("type Z;trait A;type M");
+        TraitLines x = told("type Z;trait A;type M");
         due("find(25)", x.find(25), 0);
         due("find(0)", x.find(0), 1);
         due("find(12)", x.find(12), 2);
         due("find(1)", x.find(1), -1);
         due("find(-1)", x.find(-1), -1);
         due("find(26)", x.find(26), -1);
-        HelperCheck.tellText(x, "type M");
+        tellText(x, "type M");
         due("find(12)", x.find(12), 0);
         due("find(25) of an older world", x.find(25), -1);
     }
 
     private static void counts() {
-        TraitLines x = HelperCheck.told("trait S:a=1;trait T:a=2 n?;type A;type B of A;type C of A B;type D of C;type E of B uses T;type F uses S T(-n):b=1;"
+        TraitLines x = told("trait S:a=1;trait T:a=2 n?;type A;type B of A;type C of A B;type D of C;type E of B uses T;type F uses S T(-n):b=1;"
             + "type G of F:a=1;type H of E:n=1");
         int[] due = {10, 8, 2, bits(4, 5), bits(2, 3, 9), 4, 1, 0, 0, 0, bits(5, 8, 9), -1};
         for (int what = 0; what < due.length; what++) {
